@@ -675,7 +675,7 @@ public final class TollTrees {
         /** Returns the toll that each of the carts pays. */
         int letPass(int gate, int type, int number) {
             int paid = gates[gate].tree.tollFor(type);
-            totals.record(number, costOfPath(gate, type), paid, tolls[type]);
+            totals.add(number, costOfPath(gate, type), paid, tolls[type]);
             gates[gate].addCarts(type, number);
             return paid;
         }
@@ -869,7 +869,7 @@ public final class TollTrees {
             shortage = other.shortage;
         }
 
-        void record(int number, int costEach, int paidEach, int dueEach) {
+        void add(int number, int costEach, int paidEach, int dueEach) {
             carts += number;
             cost += number * costEach;
             paid += number * paidEach;

@@ -103,19 +103,19 @@ public final class ModelTest {
                 return draw(60);
             case "nodeQuestion1": case "leafToll1": case "yesChild1": case "noChild1": case "typesAt1":
                 return draw(10);
+            case "append0": case "append1": case "append2": case "append3": case "append4":
+                return draw(1 << 30);
+            case "questionNameByte1": case "typeNameByte1": case "gateNameByte1":
+                return draw(8);
+            case "questionCost0": case "questionNameByte0": case "hasTrait1": case "errorsWithout1":
+                return draw(model.questionCount() + (sometimes(8) ? 1 : 0));
+            case "toll0": case "setToll0": case "hasTrait0": case "quickestGate0": case "typeNameByte0":
+            case "passCarts1": case "countAt1": case "leafOf1": case "chargedToll1": case "pathCost1":
+            case "mischargeReason1":
+                return draw(model.typeCount() + (sometimes(8) ? 1 : 0));
             default:
-                return letterWord(name) ? draw(1 << 30) : gateOr(name, position);
+                return draw(model.gateCount() + (sometimes(8) ? 1 : 0));
         }
-    }
-
-    private static boolean letterWord(String name) {
-        return name.equals("append");
-    }
-
-    private int gateOr(String name, int position) {
-        boolean gate = position == 0 && !name.startsWith("question") && !name.startsWith("type") && !name.equals("toll")
-            && !name.equals("setToll") && !name.equals("hasTrait") && !name.equals("quickestGate");
-        return gate && !sometimes(10) ? draw(model.gateCount()) : draw(8);
     }
 
     private static Object answer(Object target, Method method, Object[] arguments) throws Exception {
@@ -248,29 +248,51 @@ public final class ModelTest {
             text.append(';');
         }
         String whole = text.toString();
-        return sometimes(2) ? whole : whole + script(1 + draw(3), turn, turn);
+        return sometimes(2) ? whole : whole + script(1 + draw(3), names(gates, turn), names(carts, turn));
     }
 
+    /** A script with the names that the model has at present. */
     private String script(int commands) {
-        int gate = model.gateNameByte(0, 0);
-        int turn = 0;
-        while (name(turn).charAt(0) != gate && turn < 9) {
-            turn++;
+        List<String> gates = new ArrayList<>();
+        for (int g = 0; g < model.gateCount(); g++) {
+            StringBuilder name = new StringBuilder();
+            for (int i = 0; model.gateNameByte(g, i) != -1; i++) {
+                name.append((char) model.gateNameByte(g, i));
+            }
+            gates.add(name.toString());
         }
-        return script(commands, turn, turn);
+        List<String> carts = new ArrayList<>();
+        for (int t = 0; t < model.typeCount(); t++) {
+            StringBuilder name = new StringBuilder();
+            for (int i = 0; model.typeNameByte(t, i) != -1; i++) {
+                name.append((char) model.typeNameByte(t, i));
+            }
+            carts.add(name.toString());
+        }
+        return script(commands, gates, carts);
     }
 
-    private String script(int commands, int gates, int carts) {
+    private List<String> names(int count, int turn) {
+        List<String> names = new ArrayList<>();
+        for (int i = 0; i < count; i++) {
+            names.add(name(i + turn));
+        }
+        return names;
+    }
+
+    private String oneOf(List<String> names) {
+        return sometimes(20) ? name(draw(10)) : names.get(draw(names.size()));
+    }
+
+    private String script(int commands, List<String> gates, List<String> carts) {
         StringBuilder text = new StringBuilder();
         for (int i = 0; i < commands; i++) {
-            String gate = name(gates + draw(4));
-            String cart = name(carts + draw(sometimes(4) ? 8 : 3));
-            if (!sometimes(8) && model.gateCount() > 0) {
-                gate = name(gates + draw(model.gateCount()));
-            }
+            String gate = oneOf(gates);
+            String cart = oneOf(carts);
             switch (draw(7)) {
                 case 0: case 1:
-                    text.append("pass ").append(gate).append(' ').append(cart).append(' ').append(1 + draw(60));
+                    text.append("pass ").append(gate).append(' ').append(cart).append(' ')
+                        .append(sometimes(12) ? 990 + draw(12) : draw(60));
                     break;
                 case 2:
                     text.append("build ").append(gate);
@@ -279,13 +301,14 @@ public final class ModelTest {
                     text.append("halve ").append(gate);
                     break;
                 case 4:
-                    text.append("toll ").append(cart).append(' ').append(draw(20));
+                    text.append("toll ").append(cart).append(' ')
+                        .append(sometimes(10) ? 96 + draw(6) : draw(20));
                     break;
                 case 5:
-                    text.append("limit ").append(gate).append(' ').append(draw(31));
+                    text.append("limit ").append(gate).append(' ').append(draw(sometimes(4) ? 33 : 31));
                     break;
                 default:
-                    text.append("hours ").append(1 + draw(sometimes(6) ? 101 : 10));
+                    text.append("hours ").append(sometimes(20) ? 98 + draw(5) : sometimes(6) ? draw(101) : 1 + draw(10));
                     break;
             }
             text.append(';');
@@ -293,13 +316,28 @@ public final class ModelTest {
         return text.toString();
     }
 
-    /** Changes a byte, takes one away, puts one in, or cuts the text off. */
+    /** Writes the word or number at some place once more, a space between. */
+    private static void again(StringBuilder text, int at) {
+        int start = at;
+        while (start > 0 && Character.isLetterOrDigit(text.charAt(start - 1))) {
+            start--;
+        }
+        text.insert(start, text.substring(start, at) + " ");
+    }
+
+    /** Changes a byte, takes one away, puts one or more in, writes something twice, or cuts the text off. */
     private void spoil(StringBuilder text) {
         String signs = "abz 0129;; A-\u0000\u0080\u00ff\n`{/:";
         for (int i = 0; i <= draw(2); i++) {
             int at = draw(text.length());
             char sign = signs.charAt(draw(signs.length()));
-            switch (draw(4)) {
+            switch (draw(6)) {
+                case 4:
+                    text.insert(at, draw(120));
+                    break;
+                case 5:
+                    again(text, at);
+                    break;
                 case 0:
                     text.setCharAt(at, sign);
                     break;
