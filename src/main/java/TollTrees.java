@@ -1354,7 +1354,6 @@ public final class TollTrees {
         }
 
         private boolean readCounts(Gate gate) {
-            Arrays.fill(gate.counts, 0);
             for (int type = 0; type < station.typeCount; type++) {
                 gate.counts[type] = takeNumber(0, MAX_COUNT);
                 if (gate.counts[type] == NONE) {

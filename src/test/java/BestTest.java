@@ -8,6 +8,7 @@ public final class BestTest {
         bestOfFirstGates();
         bestOfPresentState();
         bestAtEveryLimit();
+        greatestWork();
         rootTies();
         errorsWithout();
         sufficientLimit();
@@ -76,6 +77,22 @@ public final class BestTest {
             Check.same("no more errors than before at " + limit, true, x.errors(0) <= before);
             before = x.errors(0);
         }
+    }
+
+    /** Every type is asked three questions of cost 9: no work is greater by much. */
+    private static void greatestWork() {
+        TollTrees x = Check.loaded("tolls;ask a 9;ask b 9;ask c 9;cart a 1;cart b 2 a;cart c 3 b;cart d 4 a b;cart e 5 c;"
+            + "cart f 6 a c;cart g 7 b c;cart h 8 a b c;gate g 0 23 30 9999 9999 9999 9999 9999 9999 9999 9999;");
+        best(x, 0, 30, 0, 27 * 8 * 9999, 0);
+        best(x, 0, 26, 4 * 9999, 18 * 8 * 9999, 0);
+        best(x, 0, 9, 6 * 9999, 9 * 8 * 9999, 0);
+        best(x, 0, 8, 7 * 9999, 0, NONE);
+        Check.same("work of the present tree", 27 * 8 * 9999, x.work(0));
+        Check.same("errors without a", 4 * 9999, x.errorsWithout(0, 0));
+        Check.same("limit", 27, x.sufficientLimit(0));
+        Check.same("no inconsistencies", 0, x.inconsistencies());
+        x.buildTree(0);
+        Check.same("nothing to gain", NONE, x.stalestGate());
     }
 
     private static void rootTies() {
@@ -188,6 +205,9 @@ public final class BestTest {
         Check.same("least gain of work", 0, x.stalestGate());
         x.buildTree(0);
         Check.same("no gain of work", NONE, x.stalestGate());
+        TollTrees z = Check.loaded(head + "gate e 0 23 9 2 1;");
+        z.halveCounts(0);
+        Check.same("a gain of 1", 0, z.stalestGate());
         TollTrees y = Check.loaded(head + "gate e 0 23 0 9 8;gate f 0 23 1 999 1;");
         y.halveCounts(1);
         Check.same("gain of work alone", 1, y.stalestGate());

@@ -252,7 +252,7 @@ public final class InputTest {
     private static void syntaxOfSetups() {
         setup(1, "^");
         setup(1, "   ^");
-        for (String wrong : new String[] {"toll;", "tollss;", "Tolls;", ";", "7", "hours 1;", "ask a 1;"}) {
+        for (String wrong : new String[] {"toll;", "tollss;", "bolls;", "Tolls;", ";", "7", "hours 1;", "ask a 1;"}) {
             setup(1, " ^" + wrong);
         }
         setup(1, "tolls^");
@@ -260,7 +260,8 @@ public final class InputTest {
         setup(1, "tolls ^ask a 1;");
         setup(1, "tolls^5;");
         setup(1, "tolls;^");
-        for (String wrong : new String[] {"7", ";", "asks a 1;", "as", "pass", "tolls", "carts", "gates", "build a;"}) {
+        for (String wrong : new String[] {"7", ";", "asks a 1;", "as", "pass", "tolls", "carts", "gates", "build a;",
+            "bsk b 1;", "dart d 1;", "hate h 1;"}) {
             setup(1, "tolls;^" + wrong);
             setup(1, "tolls;ask a 1;^" + wrong);
             setup(1, "tolls;ask a 1;cart c 1;^" + wrong);
@@ -307,7 +308,8 @@ public final class InputTest {
 
     private static void syntaxOfCommands() {
         for (String wrong : new String[] {";", "7;", "go g;", "passs g c 1;", "pas g c 1;", "Pass g c 1;", "tolls;",
-            "ask i 1;", "cart i 1;", "hour 1;", "limits g 1;", "*", "builds g;", "halv g;", "pasS"}) {
+            "ask i 1;", "cart i 1;", "hour 1;", "limits g 1;", "*", "builds g;", "halv g;", "pasS",
+            "bass h c 1;", "guild g;", "calve g;", "roll c 1;", "timit g 1;", "yours 1;"}) {
             script(1, "^" + wrong);
             script(1, "hours 1; ^" + wrong);
         }

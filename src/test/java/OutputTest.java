@@ -27,6 +27,10 @@ public final class OutputTest {
         x.passCarts(1, 2, 7);
         x.passCarts(1, 3, 7);
         Check.same("charged otherwise", 0, x.inconsistencies());
+        x.setToll(0, 99);
+        x.passCarts(1, 0, 9);
+        Check.same("undercharged", 9 * 97, x.undercharge());
+        Check.same("undercharged", 0, x.inconsistencies());
         x.halveCounts(0);
         x.setCostLimit(0, 1);
         x.buildTree(0);

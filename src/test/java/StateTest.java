@@ -200,6 +200,16 @@ public final class StateTest {
         totals(x, "load", 0, 0, 0, 0, 0, 0, 0, 0);
         Check.load(x, Check.FIRST_SETUP + "pass south barrow 1;");
         totals(x, "load with a command", 1, 2, 2, 2, 0, 0, 0, 0);
+        x.setToll(0, 9);
+        x.setToll(1, 0);
+        x.passCarts(1, 0, 1);
+        x.passCarts(1, 1, 1);
+        totals(x, "every total", 3, 6, 9, 11, 1, 1, 5, 7);
+        Check.load(x, Check.FIRST_SETUP);
+        totals(x, "load sets every total to 0", 0, 0, 0, 0, 0, 0, 0, 0);
+        for (int i = 0; i < 5; i++) {
+            x.undo();
+        }
         x.restore(0);
         totals(x, "restore", 4, 8, 36, 28, 4, 0, 8, 0);
         x.undo();

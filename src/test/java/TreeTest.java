@@ -221,6 +221,16 @@ public final class TreeTest {
         y.setToll(0, 2);
         Check.same("now it pays its own", 0, y.mischargeReason(0, 0));
         Check.same("now the other is its twin", 1, y.mischargeReason(0, 1));
+        Check.load(y, "tolls;ask a 9;cart c 1;cart d 2;cart e 2;gate g 0 23 9 5 6 7;");
+        Check.load(y, "tolls;ask a 9;cart c 3;cart d 2;gate g 0 23 9 5 6;");
+        y.setToll(0, 4);
+        y.buildTree(0);
+        y.setToll(1, 3);
+        Check.same("pays the toll of its twin", 2, y.chargedToll(0, 0));
+        Check.same("no twin is left of an earlier setup", 3, y.mischargeReason(0, 0));
+        for (int i = 0; i < 5; i++) {
+            y.undo();
+        }
         y.setToll(2, 2);
         y.setToll(0, 50);
         Check.same("the toll of a type with other answers", 3, y.mischargeReason(0, 0));
