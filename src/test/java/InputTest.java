@@ -26,6 +26,8 @@ public final class InputTest {
         notPossible();
         lowestCode();
         failedTexts();
+        bytesBehindTheText();
+        fullBuffer();
         Check.finish("InputTest");
     }
 
@@ -461,6 +463,51 @@ public final class InputTest {
         script(2, "pass g c ^1000;");
         script(1, "pass g c ^;");
         setup(1, "tolls;ask a 1;cart c 1 ^aaaaaaa;");
+    }
+
+    /** What stands in the buffer behind the length is no part of the text. */
+    private static void bytesBehindTheText() {
+        TollTrees x = Check.loaded(HEAD);
+        Check.feed(x, "hours 11;hours 22;");
+        x.truncateInput(7);
+        Check.same("cut in a number", NONE, x.play());
+        Check.same("cut in a number: code", 1, x.errorCode());
+        Check.same("cut in a number: offset", 7, x.errorOffset());
+        Check.feed(x, "hours 22;toll c 900;");
+        x.truncateInput(18);
+        Check.same("in range up to the cut", NONE, x.play());
+        Check.same("in range up to the cut: code", 1, x.errorCode());
+        Check.same("in range up to the cut: offset", 18, x.errorOffset());
+        Check.feed(x, "build gg;           ");
+        x.truncateInput(7);
+        Check.same("cut in a name", NONE, x.play());
+        Check.same("cut in a name: code", 1, x.errorCode());
+        Check.same("cut in a name: offset", 7, x.errorOffset());
+        Check.feed(x, "hours 22;hours 22;");
+        x.truncateInput(9);
+        Check.same("cut behind a command", 1, x.play());
+    }
+
+    private static void fullBuffer() {
+        TollTrees x = Check.loaded(HEAD);
+        String most = "build g;".repeat(87);
+        Check.same("700 bytes", 87, Check.play(x, most + "    "));
+        Check.same("700 bytes, a command at the end", 87, Check.play(x, "    " + most));
+        for (String end : new String[] {"h", "7", "  ", "  h", "haha"}) {
+            String text = (most + "            ").substring(0, 700 - end.length()) + end;
+            Check.same("700 bytes, " + end, end.isBlank() ? 87 : NONE, Check.play(x, text));
+            Check.same("700 bytes, " + end + ": offset", end.isBlank() ? NONE : 700 - end.trim().length(), x.errorOffset());
+        }
+        Check.same("700 spaces", 0, Check.play(x, " ".repeat(700)));
+        Check.same("700 semicolons", NONE, Check.play(x, ";".repeat(700)));
+        Check.same("700 letters", NONE, Check.play(x, "build " + "g".repeat(694)));
+        Check.same("700 letters: offset", 6, x.errorOffset());
+        Check.same("700 digits", NONE, Check.play(x, "limit g " + "9".repeat(692)));
+        Check.same("700 digits: code", 2, x.errorCode());
+        Check.same("700 digits with a semicolon", 1, Check.play(x, "limit g " + "0".repeat(690) + "7;"));
+        Check.same("700 digits: limit", 7, x.costLimit(0));
+        Check.same("700 bytes without an end", NONE, Check.play(x, "limit g " + "0".repeat(692)));
+        Check.same("700 bytes without an end: offset", 700, x.errorOffset());
     }
 
     private static void failedTexts() {

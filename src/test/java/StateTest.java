@@ -207,7 +207,12 @@ public final class StateTest {
         totals(x, "every total", 3, 6, 9, 11, 1, 1, 5, 7);
         Check.load(x, Check.FIRST_SETUP);
         totals(x, "load sets every total to 0", 0, 0, 0, 0, 0, 0, 0, 0);
-        for (int i = 0; i < 5; i++) {
+        x.undo();
+        x.play();
+        totals(x, "play keeps every total", 3, 6, 9, 11, 1, 1, 5, 7);
+        Check.load(x, Check.FIRST_SETUP);
+        totals(x, "load after play sets every total to 0", 0, 0, 0, 0, 0, 0, 0, 0);
+        for (int i = 0; i < 6; i++) {
             x.undo();
         }
         x.restore(0);
