@@ -10,8 +10,14 @@ final class Check {
 
     private static int passed = 0;
     private static int failed = 0;
+    private static String about = "";
 
     private Check() {
+    }
+
+    /** What the next checks are about stands before what they tell. */
+    static void about(String what) {
+        about = what;
     }
 
     /** Compares the answer of a call, or the simple name of what it throws, with what is due. */
@@ -30,7 +36,7 @@ final class Check {
             passed++;
         } else {
             failed++;
-            System.out.println(what + " answered " + got + ", due is " + want);
+            System.out.println(about + what + " answered " + got + ", due is " + want);
         }
     }
 
