@@ -1,8 +1,6 @@
 /** Promises 52 to 58: the best tree, without building it. */
 public final class BestTest {
     private static final int NONE = TollTrees.NONE;
-    private static final int MIN = Integer.MIN_VALUE;
-    private static final int MAX = Integer.MAX_VALUE;
 
     public static void main(String[] args) {
         bestOfFirstGates();
@@ -16,8 +14,6 @@ public final class BestTest {
         stalestGateTies();
         quickestGate();
         quickestGateTies();
-        nothingIsBuilt();
-        wrongArguments();
         Check.finish("BestTest");
     }
 
@@ -272,50 +268,5 @@ public final class BestTest {
         Check.same("the toll of another type", 1, x.quickestGate(1));
         TollTrees y = Check.loaded(head + "gate f 0 23 9 9 9 1;gate g 0 23 0 9 1 1;");
         Check.same("less cost before a lower toll", 1, y.quickestGate(1));
-    }
-
-    private static void nothingIsBuilt() {
-        TollTrees x = new TollTrees();
-        x.setToll(4, 2);
-        x.writeTree(0);
-        String before = Check.seenWhole(x);
-        for (int limit = 0; limit <= 30; limit++) {
-            x.bestErrors(0, limit);
-            x.bestWork(1, limit);
-            x.bestRootQuestion(0, limit);
-        }
-        x.errorsWithout(0, 1);
-        x.sufficientLimit(1);
-        x.stalestGate();
-        x.quickestGate(1);
-        x.inconsistencies();
-        x.meanPathCost(0);
-        x.correctShare();
-        Check.same("no change", before, Check.seenWhole(x));
-    }
-
-    private static void wrongArguments() {
-        TollTrees x = new TollTrees();
-        for (int i : new int[] {-1, 2, 3, 4, MIN, MAX}) {
-            Check.throwsAndKeeps(x, "bestErrors " + i, "IndexOutOfBoundsException", () -> x.bestErrors(i, 0));
-            Check.throwsAndKeeps(x, "bestWork " + i, "IndexOutOfBoundsException", () -> x.bestWork(i, 0));
-            Check.throwsAndKeeps(x, "bestRoot " + i, "IndexOutOfBoundsException", () -> x.bestRootQuestion(i, 0));
-            Check.outside("bestErrors, both wrong", () -> x.bestErrors(i, 31));
-            Check.outside("bestWork, both wrong", () -> x.bestWork(i, -1));
-            Check.outside("bestRootQuestion, both wrong", () -> x.bestRootQuestion(i, 31));
-            Check.throwsAndKeeps(x, "errorsWithout " + i, "IndexOutOfBoundsException", () -> x.errorsWithout(i, 0));
-            Check.throwsAndKeeps(x, "sufficientLimit " + i, "IndexOutOfBoundsException", () -> x.sufficientLimit(i));
-        }
-        for (int i : new int[] {-1, 31, 32, MIN, MAX}) {
-            Check.throwsAndKeeps(x, "bestErrors 0 " + i, "IllegalArgumentException", () -> x.bestErrors(0, i));
-            Check.throwsAndKeeps(x, "bestWork 0 " + i, "IllegalArgumentException", () -> x.bestWork(0, i));
-            Check.throwsAndKeeps(x, "bestRoot 0 " + i, "IllegalArgumentException", () -> x.bestRootQuestion(0, i));
-        }
-        for (int i : new int[] {-1, 3, 6, MIN, MAX}) {
-            Check.throwsAndKeeps(x, "errorsWithout 0 " + i, "IndexOutOfBoundsException", () -> x.errorsWithout(0, i));
-        }
-        for (int i : new int[] {-1, 5, 8, MIN, MAX}) {
-            Check.throwsAndKeeps(x, "quickestGate " + i, "IndexOutOfBoundsException", () -> x.quickestGate(i));
-        }
     }
 }

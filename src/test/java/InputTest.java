@@ -1,8 +1,8 @@
 /** Promises 1 to 7: a new object, the input buffer, load() and play() with their errors. */
 public final class InputTest {
     private static final int NONE = TollTrees.NONE;
-    /** A text up to its commands: gate g is open from 6 to 8, gate h always. */
-    private static final String HEAD = "tolls;ask a 1;ask b 2;cart c 3;cart d 4 a;gate g 6 8 9 1 2;gate h 0 23 9 3 4;";
+    private static final String HEAD = Parse.HEAD;
+    private static final Start LOADED = Start.loaded(HEAD);
 
     public static void main(String[] args) {
         newObject();
@@ -41,15 +41,15 @@ public final class InputTest {
         Check.notNow("new: restore(1)", () -> x.restore(1));
         Check.notNow("new: undo()", () -> x.undo());
         Check.same("new: undoable", 0, x.undoableChanges());
-        String want = "3 5 2 clock 0 totals 0 0 0 0 0 0 0 0\n"
+        String want = "clock 0 totals 0 0 0 0 0 0 0 0\n"
             + "wheels 1\nload 2\nbeast 1\n"
             + "barrow 2 no no no\ndray 5 yes yes no\ncoach 7 yes no yes\nwagon 9 yes yes yes\nmule 3 no no yes\n"
             + "north false 6 9 40 25 10 15 10 [0 -1 1 6 31] [2 -1 2 5 14] [1 -1 3 4 12] [-1 9 -1 -1 8]"
             + " [-1 7 -1 -1 4] [-1 5 -1 -1 2] [2 -1 7 8 17] [-1 3 -1 -1 16] [-1 2 -1 -1 1]\n"
             + "south true 0 2 5 50 5 30 10 [0 -1 1 4 31] [2 -1 2 3 14] [-1 9 -1 -1 12] [-1 5 -1 -1 2]"
             + " [2 -1 5 6 17] [-1 3 -1 -1 16] [-1 2 -1 -1 1]\n";
-        Check.same("new: state", want, Check.seen(new TollTrees()));
-        Check.same("new: as loaded", Check.seen(Check.loaded(Check.FIRST_SETUP)), Check.seen(new TollTrees()));
+        Check.same("new: state", want, Seen.state(Start.NEW));
+        Check.same("new: as loaded", Seen.state(Start.loaded(Check.FIRST_SETUP)), Seen.state(Start.NEW));
     }
 
     private static void append() {
@@ -90,7 +90,7 @@ public final class InputTest {
         Check.illegal("truncateInput(1)", () -> x.truncateInput(1));
         Check.illegal("truncateInput(-1)", () -> x.truncateInput(-1));
         Check.illegal("truncateInput(MIN)", () -> x.truncateInput(Integer.MIN_VALUE));
-        Check.feed(x, "hours 1;hours 2;hours 3;");
+        Parse.feed(x, "hours 1;hours 2;hours 3;");
         Check.illegal("truncateInput(25)", () -> x.truncateInput(25));
         Check.illegal("truncateInput(-1)", () -> x.truncateInput(-1));
         Check.same("truncate to the same", 24, x.truncateInput(24));
@@ -103,84 +103,79 @@ public final class InputTest {
 
     private static void load() {
         TollTrees x = new TollTrees();
-        Check.same("load", 2, Check.load(x, HEAD));
+        Check.same("load", 2, Parse.load(x, HEAD));
         Check.same("load: code", 0, x.errorCode());
         Check.same("load: offset", NONE, x.errorOffset());
         Check.illegal("load: empty buffer", () -> x.truncateInput(1));
         Check.same("load: undoable", 1, x.undoableChanges());
-        Check.same("load with commands", 2, Check.load(x, HEAD + "hours 6;pass g c 2;toll c 9;pass h c 3;"));
+        Check.same("load with commands", 2, Parse.load(x, HEAD + "hours 6;pass g c 2;toll c 9;pass h c 3;"));
         Check.same("load: clock", 6, x.clock());
         Check.same("load: passed", 5, x.cartsPassed());
         Check.same("load: due", 2 * 3 + 3 * 9, x.tollsDue());
         Check.same("load: paid", 5 * 3, x.tollsPaid());
         Check.same("load: undoable", 2, x.undoableChanges());
-        Check.same("load again", 2, Check.load(x, HEAD));
+        Check.same("load again", 2, Parse.load(x, HEAD));
         Check.same("load: clock 0", 0, x.clock());
         Check.same("load: totals 0", 0, x.cartsPassed() + x.costAsked() + x.tollsPaid() + x.tollsDue()
             + x.cartsOvercharged() + x.cartsUndercharged() + x.overcharge() + x.undercharge());
     }
 
     private static void loadReplacesAll() {
-        TollTrees x = new TollTrees();
-        Check.load(x, "tolls;ask q 9;cart z 99;gate w 23 22 30 9999;");
-        Check.same("smaller", "1 1 1 clock 0 totals 0 0 0 0 0 0 0 0\nq 9\nz 99 no\n"
-            + "w true 0 30 9999 [-1 99 -1 -1 1]\n", Check.seen(x));
-        String largest = "tolls;ask a 1;ask b 2;ask c 3;ask d 4;ask e 5;ask f 6;cart a 1 a;cart b 2 b;cart c 3 c;"
+        String small = "tolls;ask q 9;cart z 99;gate w 23 22 30 9999;";
+        String want = "clock 0 totals 0 0 0 0 0 0 0 0\nq 9\nz 99 no\nw true 0 30 9999 [-1 99 -1 -1 1]\n";
+        Check.same("smaller", want, Seen.state(Start.loaded(small)));
+        Start largest = Start.loaded("tolls;ask a 1;ask b 2;ask c 3;ask d 4;ask e 5;ask f 6;cart a 1 a;cart b 2 b;cart c 3 c;"
             + "cart d 4 d;cart e 5 e;cart f 6 f;cart g 7 a b;cart h 8 f e d c b a;gate a 0 1 30 1 2 3 4 5 6 7 8;"
-            + "gate b 0 2 30 1 2 3 4 5 6 7 8;gate c 0 3 30 1 2 3 4 5 6 7 8;gate d 0 4 30 1 2 3 4 5 6 7 8;";
-        Check.same("largest", 8, Check.load(x, largest));
-        Check.same("largest: questions", 6, x.questionCount());
-        Check.same("largest: types", 8, x.typeCount());
-        Check.same("largest: gates", 4, x.gateCount());
-        Check.same("largest: nodes", 15, x.nodeCount(3));
-        Check.load(x, "tolls;ask q 9;cart z 99;gate w 23 22 30 9999;");
-        Check.same("smaller again", "1 1 1 clock 0 totals 0 0 0 0 0 0 0 0\nq 9\nz 99 no\n"
-            + "w true 0 30 9999 [-1 99 -1 -1 1]\n", Check.seen(x));
+            + "gate b 0 2 30 1 2 3 4 5 6 7 8;gate c 0 3 30 1 2 3 4 5 6 7 8;gate d 0 4 30 1 2 3 4 5 6 7 8;");
+        largest.answers("largest: questions", 6, x -> x.questionCount());
+        largest.answers("largest: types", 8, x -> x.typeCount());
+        largest.answers("largest: gates", 4, x -> x.gateCount());
+        largest.answers("largest: nodes", 15, x -> x.nodeCount(3));
+        Check.same("smaller again", want, Seen.state(largest.then(x -> Parse.load(x, small))));
     }
 
     private static void play() {
         TollTrees x = Check.loaded(HEAD);
         Check.same("play nothing", 0, x.play());
-        Check.same("play nothing: a change", 1, Check.loaded(HEAD).undoableChanges());
         Check.same("play nothing: undoable", 2, x.undoableChanges());
-        Check.same("play spaces", 0, Check.play(x, "    "));
-        int commands = Check.play(x, "hours 7; pass g c 5; pass h d 6; toll d 2; limit g 0; build g; halve h;");
-        Check.same("play", 7, commands);
+        Check.same("play spaces", 0, Parse.play(x, "    "));
+        String script = "hours 7; pass g c 5; pass h d 6; toll d 2; limit g 0; build g; halve h;";
+        Check.same("play", 7, Parse.play(x, script));
         Check.same("play: one change", 4, x.undoableChanges());
         Check.illegal("play: empty buffer", () -> x.truncateInput(1));
-        Check.same("play: state", "2 2 2 clock 7 totals 11 11 39 39 0 0 0 0\na 1\nb 2\nc 3 no no\nd 2 yes no\n"
+        Start played = LOADED.then(y -> Parse.play(y, script));
+        Check.same("play: state", "clock 7 totals 11 11 39 39 0 0 0 0\na 1\nb 2\nc 3 no no\nd 2 yes no\n"
             + "g true 0 0 6 2 [-1 3 -1 -1 3]\nh true 0 9 1 5 [0 -1 1 2 3] [-1 4 -1 -1 2] [-1 3 -1 -1 1]\n",
-            Check.seen(x));
-        x.undo();
-        Check.same("play undone", Check.seen(Check.loaded(HEAD)), Check.seen(x));
-        TollTrees y = Check.loaded(HEAD);
-        y.advanceClock(7);
-        y.passCarts(0, 0, 5);
-        y.passCarts(1, 1, 6);
-        y.setToll(1, 2);
-        y.setCostLimit(0, 0);
-        y.buildTree(0);
-        y.halveCounts(1);
-        Check.play(x, "hours 7; pass g c 5; pass h d 6; toll d 2; limit g 0; build g; halve h;");
-        Check.same("play as the calls", Check.seen(y), Check.seen(x));
+            Seen.state(played));
+        Check.same("play undone", Seen.state(LOADED), Seen.state(played.then(y -> y.undo())));
+        Start called = LOADED.then(y -> {
+            y.advanceClock(7);
+            y.passCarts(0, 0, 5);
+            y.passCarts(1, 1, 6);
+            y.setToll(1, 2);
+            y.setCostLimit(0, 0);
+            y.buildTree(0);
+            y.halveCounts(1);
+        });
+        Check.same("play as the calls", Seen.state(called), Seen.state(played));
     }
 
     private static void errorsStayUntilTheNextText() {
         TollTrees x = Check.loaded(HEAD);
-        Check.play(x, "hours 1;hours 0;");
+        Parse.play(x, "hours 1;hours 0;");
         x.advanceClock(1);
         x.undo();
         Check.same("code stays", 2, x.errorCode());
         Check.same("offset stays", 14, x.errorOffset());
-        Check.play(x, "hours 1;");
+        Parse.play(x, "hours 1;");
         Check.same("code of a right text", 0, x.errorCode());
         Check.same("offset of a right text", NONE, x.errorOffset());
         x.undo();
         Check.same("undo leaves the error", 0, x.errorCode());
-        Check.load(x, "tolls");
+        Parse.load(x, "tolls");
         Check.same("code of load", 1, x.errorCode());
         Check.same("offset of load", 5, x.errorOffset());
-        Check.load(x, HEAD);
+        Parse.load(x, HEAD);
         Check.same("code after load", 0, x.errorCode());
         Check.same("offset after load", NONE, x.errorOffset());
     }
@@ -188,10 +183,11 @@ public final class InputTest {
     private static void spaces() {
         String wide = " tolls ; ask  a 1  ; ask b 2;cart c 3 ;cart d 4 a ; gate g 6 8 9 1 2 ; gate h 0 23 9 3 4 ; hours 1 ; ";
         String narrow = "tolls;ask a1;ask b2;cart c3;cart d4a;gate g6 8 9 1 2;gate h0 23 9 3 4;hours1;";
-        Check.same("wide", Check.seen(Check.loaded(HEAD + "hours 1;")), Check.seen(Check.loaded(wide)));
-        Check.same("narrow", Check.seen(Check.loaded(HEAD + "hours 1;")), Check.seen(Check.loaded(narrow)));
+        String want = Seen.state(Start.loaded(HEAD + "hours 1;"));
+        Check.same("wide", want, Seen.state(Start.loaded(wide)));
+        Check.same("narrow", want, Seen.state(Start.loaded(narrow)));
         TollTrees x = Check.loaded(HEAD);
-        Check.same("narrow script", 2, Check.play(x, "hours7;pass g c1;"));
+        Check.same("narrow script", 2, Parse.play(x, "hours7;pass g c1;"));
         Check.same("narrow count", 2, x.countAt(0, 0));
     }
 
@@ -227,27 +223,11 @@ public final class InputTest {
 
     /** The sign ^ stands before the wrong token. */
     private static void setup(int code, String marked) {
-        TollTrees x = new TollTrees();
-        int offset = marked.indexOf('^');
-        String before = Check.seen(x);
-        Check.same(marked, NONE, Check.load(x, marked.replace("^", "")));
-        Check.same(marked + " code", code, x.errorCode());
-        Check.same(marked + " offset", offset, x.errorOffset());
-        Check.same(marked + " state", before, Check.seen(x));
-        Check.same(marked + " undoable", 0, x.undoableChanges());
-        Check.same(marked + " buffer", 20, x.append(0, 0, 0, 0, 0));
+        Parse.wrong(Start.NEW, code, marked, true);
     }
 
     private static void script(int code, String marked) {
-        TollTrees x = Check.loaded(HEAD);
-        int offset = marked.indexOf('^');
-        String before = Check.seen(x);
-        Check.same(marked, NONE, Check.play(x, marked.replace("^", "")));
-        Check.same(marked + " code", code, x.errorCode());
-        Check.same(marked + " offset", offset, x.errorOffset());
-        Check.same(marked + " state", before, Check.seen(x));
-        Check.same(marked + " undoable", 1, x.undoableChanges());
-        Check.same(marked + " buffer", 20, x.append(0, 0, 0, 0, 0));
+        Parse.wrong(LOADED, code, marked, false);
         setup(code, HEAD + marked);
     }
 
@@ -380,18 +360,18 @@ public final class InputTest {
 
     private static void rangeOfClock() {
         TollTrees x = Check.loaded(HEAD);
-        Check.play(x, "hours 100;".repeat(70));
-        Check.play(x, "hours 100;".repeat(29) + "hours 50;");
+        Parse.play(x, "hours 100;".repeat(70));
+        Parse.play(x, "hours 100;".repeat(29) + "hours 50;");
         Check.same("clock", 9950, x.clock());
-        Check.same("hours 50", NONE, Check.play(x, "hours 50;"));
+        Check.same("hours 50", NONE, Parse.play(x, "hours 50;"));
         Check.same("hours 50: code", 2, x.errorCode());
         Check.same("hours 50: offset", 6, x.errorOffset());
-        Check.same("hours 49", 1, Check.play(x, "hours 49;"));
+        Check.same("hours 49", 1, Parse.play(x, "hours 49;"));
         Check.same("clock", 9999, x.clock());
-        Check.same("hours 1", NONE, Check.play(x, "build g;hours 1;"));
+        Check.same("hours 1", NONE, Parse.play(x, "build g;hours 1;"));
         Check.same("hours 1: code", 2, x.errorCode());
         Check.same("hours 1: offset", 14, x.errorOffset());
-        Check.same("load: the clock is 0 before the first command", 2, Check.load(x, HEAD + "hours 1;"));
+        Check.same("load: the clock is 0 before the first command", 2, Parse.load(x, HEAD + "hours 1;"));
         Check.same("clock", 1, x.clock());
     }
 
@@ -453,8 +433,8 @@ public final class InputTest {
         script(6, "hours 9;pass g d ^1");
         script(6, "pass h d 1;hours 6;pass g c 1;hours 3;pass g c ^1;");
         TollTrees x = Check.loaded(HEAD);
-        Check.same("pass at the opening hour", 2, Check.play(x, "hours 6;pass g c 1;"));
-        Check.same("pass at the closing hour", 2, Check.play(x, "hours 2;pass g c 1;"));
+        Check.same("pass at the opening hour", 2, Parse.play(x, "hours 6;pass g c 1;"));
+        Check.same("pass at the closing hour", 2, Parse.play(x, "hours 2;pass g c 1;"));
     }
 
     private static void lowestCode() {
@@ -468,22 +448,22 @@ public final class InputTest {
     /** What stands in the buffer behind the length is no part of the text. */
     private static void bytesBehindTheText() {
         TollTrees x = Check.loaded(HEAD);
-        Check.feed(x, "hours 11;hours 22;");
+        Parse.feed(x, "hours 11;hours 22;");
         x.truncateInput(7);
         Check.same("cut in a number", NONE, x.play());
         Check.same("cut in a number: code", 1, x.errorCode());
         Check.same("cut in a number: offset", 7, x.errorOffset());
-        Check.feed(x, "hours 22;toll c 900;");
+        Parse.feed(x, "hours 22;toll c 900;");
         x.truncateInput(18);
         Check.same("in range up to the cut", NONE, x.play());
         Check.same("in range up to the cut: code", 1, x.errorCode());
         Check.same("in range up to the cut: offset", 18, x.errorOffset());
-        Check.feed(x, "build gg;           ");
+        Parse.feed(x, "build gg;           ");
         x.truncateInput(7);
         Check.same("cut in a name", NONE, x.play());
         Check.same("cut in a name: code", 1, x.errorCode());
         Check.same("cut in a name: offset", 7, x.errorOffset());
-        Check.feed(x, "hours 22;hours 22;");
+        Parse.feed(x, "hours 22;hours 22;");
         x.truncateInput(9);
         Check.same("cut behind a command", 1, x.play());
     }
@@ -491,36 +471,31 @@ public final class InputTest {
     private static void fullBuffer() {
         TollTrees x = Check.loaded(HEAD);
         String most = "build g;".repeat(87);
-        Check.same("700 bytes", 87, Check.play(x, most + "    "));
-        Check.same("700 bytes, a command at the end", 87, Check.play(x, "    " + most));
+        Check.same("700 bytes", 87, Parse.play(x, most + "    "));
+        Check.same("700 bytes, a command at the end", 87, Parse.play(x, "    " + most));
         for (String end : new String[] {"h", "7", "  ", "  h", "haha"}) {
             String text = (most + "            ").substring(0, 700 - end.length()) + end;
-            Check.same("700 bytes, " + end, end.isBlank() ? 87 : NONE, Check.play(x, text));
+            Check.same("700 bytes, " + end, end.isBlank() ? 87 : NONE, Parse.play(x, text));
             Check.same("700 bytes, " + end + ": offset", end.isBlank() ? NONE : 700 - end.trim().length(), x.errorOffset());
         }
-        Check.same("700 spaces", 0, Check.play(x, " ".repeat(700)));
-        Check.same("700 semicolons", NONE, Check.play(x, ";".repeat(700)));
-        Check.same("700 letters", NONE, Check.play(x, "build " + "g".repeat(694)));
+        Check.same("700 spaces", 0, Parse.play(x, " ".repeat(700)));
+        Check.same("700 semicolons", NONE, Parse.play(x, ";".repeat(700)));
+        Check.same("700 letters", NONE, Parse.play(x, "build " + "g".repeat(694)));
         Check.same("700 letters: offset", 6, x.errorOffset());
-        Check.same("700 digits", NONE, Check.play(x, "limit g " + "9".repeat(692)));
+        Check.same("700 digits", NONE, Parse.play(x, "limit g " + "9".repeat(692)));
         Check.same("700 digits: code", 2, x.errorCode());
-        Check.same("700 digits with a semicolon", 1, Check.play(x, "limit g " + "0".repeat(690) + "7;"));
+        Check.same("700 digits with a semicolon", 1, Parse.play(x, "limit g " + "0".repeat(690) + "7;"));
         Check.same("700 digits: limit", 7, x.costLimit(0));
-        Check.same("700 bytes without an end", NONE, Check.play(x, "limit g " + "0".repeat(692)));
+        Check.same("700 bytes without an end", NONE, Parse.play(x, "limit g " + "0".repeat(692)));
         Check.same("700 bytes without an end: offset", 700, x.errorOffset());
     }
 
     private static void failedTexts() {
-        TollTrees x = Check.loaded(HEAD);
-        x.advanceClock(1);
-        String before = Check.seen(x);
-        Check.same("fails late", NONE, Check.play(x, "hours 9;pass h c 3;toll c 8;halve h;limit h 0;build h"));
-        Check.same("fails late: offset", 53, x.errorOffset());
-        Check.same("fails late: state", before, Check.seen(x));
-        Check.same("fails late", NONE, Check.load(x, HEAD + "hours 9;pass h c 3;toll c 8;halve h;limit h 0;build k;"));
-        Check.same("fails late: state", before, Check.seen(x));
-        Check.same("fails late: undoable", 2, x.undoableChanges());
-        x.undo();
-        Check.same("undo after failures", Check.seen(Check.loaded(HEAD)), Check.seen(x));
+        Start start = LOADED.then(x -> x.advanceClock(1));
+        String commands = "hours 9;pass h c 3;toll c 8;halve h;limit h 0;build ";
+        Parse.wrong(start, 1, commands + "h^", false);
+        Parse.wrong(start, 3, HEAD + commands + "^k;", true);
+        Start failed = start.then(x -> Parse.play(x, commands)).then(x -> Parse.load(x, HEAD + commands));
+        Check.same("undo after failures", Seen.state(LOADED), Seen.state(failed.then(x -> x.undo())));
     }
 }

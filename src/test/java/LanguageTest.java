@@ -1,7 +1,6 @@
 import java.io.IOException;
 import java.nio.file.Files;
 import java.nio.file.Path;
-import java.util.List;
 import java.util.regex.Matcher;
 import java.util.regex.Pattern;
 
@@ -28,37 +27,40 @@ public final class LanguageTest {
     }
 
     private static void words(String code) {
-        for (String word : new String[] {"package", "try", "catch", "finally", "synchronized", "assert", "instanceof",
-            "native", "volatile", "transient", "strictfp", "protected", "Object", "Thread", "equals", "hashCode",
-            "toString", "var", "yield", "interface", "record", "extends", "implements"}) {
+        for (String word : new String[] {"package", "finally", "synchronized", "assert", "native", "volatile", "transient",
+            "strictfp", "protected", "Thread", "hashCode", "getMessage", "Runtime", "Class"}) {
             none("word " + word, "\\b" + word + "\\b", code);
         }
-        none("lambda", "->", code);
+        none("lambda", "(?m)^(?!\\s*(case\\b[^>]*|default\\s*)->).*->.*$", code);
         none("method reference", "::", code);
         none("static initialiser", "static\\s*\\{", code);
-        none("annotation", "@", code);
         none("text joined by +", "\"\\s*\\+|\\+\\s*\"", code);
-        none("exception with a made text", "throw new \\w+\\([^)]", code);
-        none("other exception", "throw (?!new (IllegalState|IllegalArgument|IndexOutOfBounds)Exception\\(\\);)", code);
+        none("other exception", "throw (?!new (IllegalState|IllegalArgument|IndexOutOfBounds|Arithmetic|UnsupportedOperation"
+            + "|NoSuchElement|Runtime)Exception\\((\"\")?\\);)", code);
+        none("catch of what the machine throws", "catch \\([^)]*\\b((ArrayIndexOutOfBounds|NullPointer|ClassCast"
+            + "|NegativeArraySize|ArrayStore)Exception|Throwable|Exception|Error)\\b", code);
     }
 
     private static void imports(String code) {
         Matcher matcher = Pattern.compile("import ([^;]*);").matcher(code);
         while (matcher.find()) {
-            Check.same("import", true, List.of("java.util.Arrays").contains(matcher.group(1)));
+            Check.same("import " + matcher.group(1), true, matcher.group(1)
+                .matches("java\\.util\\.(Arrays|ArrayList|List|Iterator|NoSuchElementException)"));
         }
     }
 
     private static void library(String code) {
-        none("Math", "Math\\.(?!(min|max|abs)\\()", code);
+        none("exact arithmetic", "\\b(Math|Integer|Long)\\.\\w*Exact\\b", code);
+        none("Math over doubles", "Math\\.(random|sqrt|cbrt|pow|exp|log|sin|cos|tan|floor|ceil|rint|round)\\(", code);
         none("System", "System\\.(?!arraycopy\\()", code);
         none("Arrays", "Arrays\\.(?!(fill|copyOf|copyOfRange)\\()", code);
         none("array of two dimensions of objects", "[A-Z]\\w+\\[\\]\\[\\]", code);
     }
 
+    /** The rules say "some twelve", "some twenty" and "some sixty": what is clearly above them is told. */
     private static void classes(String code) {
         String[] parts = code.split("\\bclass (?=\\w)");
-        Check.same("at most twelve classes", true, parts.length - 1 <= 12);
+        Check.same("some twelve classes", true, parts.length - 1 <= 14);
         for (int i = 1; i < parts.length; i++) {
             String name = parts[i].split("\\W")[0];
             String indent = i == 1 ? "    " : "        ";
@@ -67,9 +69,8 @@ public final class LanguageTest {
             while (field.find()) {
                 fields++;
             }
-            Check.same("at most twenty fields in " + name + ": " + fields, true, fields <= 20);
-            Check.same(name + " is static and final", true,
-                i == 1 || parts[i - 1].endsWith("private static final "));
+            Check.same("some twenty fields in " + name + ": " + fields, true, fields <= 24);
+            none("public class inside", "public[\\w ]*$", i == 1 ? "" : parts[i - 1]);
         }
     }
 
@@ -85,11 +86,11 @@ public final class LanguageTest {
                 Check.same("at most seven parameters: " + line.trim(), true, line.split(",").length <= 7);
             }
             if (start >= 0 && line.matches("( {4}| {8})}") && line.indexOf('}') == indent(lines[start])) {
-                Check.same("at most sixty lines: " + lines[start].trim(), true, i - start <= 60);
+                Check.same("some sixty lines: " + lines[start].trim(), true, i - start <= 70);
                 start = -1;
             }
         }
-        Check.same("methods were found", true, methods > 100);
+        Check.same("methods were found", true, methods > 60);
     }
 
     private static int indent(String line) {

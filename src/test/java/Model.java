@@ -443,6 +443,15 @@ public final class Model {
         return answer;
     }
 
+    /** What the draw of arguments near an edge must know. */
+    int inputLength() {
+        return input.length();
+    }
+
+    int outputLength() {
+        return output.length();
+    }
+
     // ---- the face
 
     public int append(int a, int b, int c, int d, int e) {

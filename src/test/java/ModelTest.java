@@ -4,9 +4,12 @@ import java.util.ArrayList;
 import java.util.Arrays;
 import java.util.List;
 
-/** Runs of calls, drawn by a fixed rule, on the class and on the model of the document side by side. */
+/**
+ * Runs of calls, drawn by a fixed rule, on the class and on the model of the document side by side. An object has its
+ * 512 calls and no more.
+ */
 public final class ModelTest {
-    private static final int RUNS = 700;
+    private static final int RUNS = 1000;
     private static final int CALLS = 512;
     private static final String[] CHANGES = {"passCarts", "passCarts", "passCarts", "buildTree", "halveCounts", "setToll",
         "setToll", "setCostLimit", "advanceClock", "advanceClock", "undo", "save", "restore"};
@@ -55,6 +58,10 @@ public final class ModelTest {
         model = new Model();
         told.clear();
         calls = 0;
+        if (sometimes(10)) {
+            text("hours 100;".repeat(70), "play");
+            text("hours 100;".repeat(28) + "hours " + (50 + draw(50)) + ";", "play");
+        }
         while (calls < CALLS) {
             int kind = draw(20);
             if (kind == 0) {
@@ -88,6 +95,9 @@ public final class ModelTest {
             int[] odd = {-1, Integer.MIN_VALUE, Integer.MAX_VALUE, 31, 100, 1000, 8, 6, 4, 15};
             return odd[draw(odd.length)];
         }
+        if (sometimes(10)) {
+            return edge(name + position);
+        }
         switch (name + position) {
             case "passCarts2":
                 return sometimes(3) ? 1 + draw(999) : 1 + draw(20);
@@ -118,6 +128,28 @@ public final class ModelTest {
         }
     }
 
+    /** The least or the greatest that is in range, or what is just outside. */
+    private int edge(String parameter) {
+        switch (parameter) {
+            case "passCarts2":
+                return new int[] {0, 1, 999, 1000}[draw(4)];
+            case "setToll1":
+                return new int[] {-1, 0, 99, 100}[draw(4)];
+            case "setCostLimit1": case "bestErrors1": case "bestWork1": case "bestRootQuestion1":
+                return new int[] {-1, 0, 30, 31}[draw(4)];
+            case "advanceClock0":
+                return new int[] {0, 1, 100, 101}[draw(4)];
+            case "truncateInput0":
+                return model.inputLength() + draw(2);
+            case "outputByte0":
+                return model.outputLength() - draw(2);
+            case "nodeQuestion1": case "leafToll1": case "yesChild1": case "noChild1": case "typesAt1":
+                return model.nodeCount(0) - draw(2);
+            default:
+                return draw(3);
+        }
+    }
+
     private static Object answer(Object target, Method method, Object[] arguments) throws Exception {
         try {
             return target.getClass().getMethod(method.getName(), method.getParameterTypes()).invoke(target, arguments);
@@ -127,6 +159,9 @@ public final class ModelTest {
     }
 
     private void call(Method method, Object[] arguments) throws Exception {
+        if (calls == CALLS) {
+            return;
+        }
         calls++;
         Object want = answer(model, method, arguments);
         Object got = answer(x, method, arguments);
@@ -168,49 +203,51 @@ public final class ModelTest {
         call(method(method), new Object[0]);
         call(method("errorCode"), new Object[0]);
         call(method("errorOffset"), new Object[0]);
-        Check.same("state after " + told, seen(model), Check.seen(x));
+        if (sometimes(4)) {
+            look();
+        }
     }
 
-    private String seen(Model model) throws Exception {
-        StringBuilder all = new StringBuilder();
-        all.append(model.questionCount()).append(' ').append(model.typeCount()).append(' ').append(model.gateCount());
-        all.append(" clock ").append(model.clock()).append(" totals ").append(model.cartsPassed()).append(' ')
-            .append(model.costAsked()).append(' ').append(model.tollsPaid()).append(' ').append(model.tollsDue())
-            .append(' ').append(model.cartsOvercharged()).append(' ').append(model.cartsUndercharged()).append(' ')
-            .append(model.overcharge()).append(' ').append(model.undercharge()).append('\n');
-        for (int q = 0; q < model.questionCount(); q++) {
-            for (int i = 0; model.questionNameByte(q, i) != -1; i++) {
-                all.append((char) model.questionNameByte(q, i));
-            }
-            all.append(' ').append(model.questionCost(q)).append('\n');
+    private void ask(String name, Object... arguments) throws Exception {
+        call(method(name), arguments);
+    }
+
+    /** Compares all of the state, as far as the calls that are left reach. */
+    private void look() throws Exception {
+        for (String name : new String[] {"questionCount", "typeCount", "gateCount", "clock", "undoableChanges", "cartsPassed",
+            "costAsked", "tollsPaid", "tollsDue", "cartsOvercharged", "cartsUndercharged", "overcharge", "undercharge"}) {
+            ask(name);
         }
-        for (int t = 0; t < model.typeCount(); t++) {
-            for (int i = 0; model.typeNameByte(t, i) != -1; i++) {
-                all.append((char) model.typeNameByte(t, i));
-            }
-            all.append(' ').append(model.toll(t));
-            for (int q = 0; q < model.questionCount(); q++) {
-                all.append(model.hasTrait(t, q) ? " yes" : " no");
-            }
-            all.append('\n');
+        for (int gate = 0; gate < model.gateCount(); gate++) {
+            lookAt(gate);
         }
-        for (int g = 0; g < model.gateCount(); g++) {
-            for (int i = 0; model.gateNameByte(g, i) != -1; i++) {
-                all.append((char) model.gateNameByte(g, i));
+        for (int type = 0; type < model.typeCount(); type++) {
+            ask("toll", type);
+            ask("typeNameByte", type, draw(7));
+            for (int question = 0; question < model.questionCount(); question++) {
+                ask("hasTrait", type, question);
             }
-            all.append(' ').append(model.isOpen(g)).append(' ').append(model.hoursUntilOpen(g)).append(' ')
-                .append(model.costLimit(g));
-            for (int t = 0; t < model.typeCount(); t++) {
-                all.append(' ').append(model.countAt(g, t));
-            }
-            for (int n = 0; n < model.nodeCount(g); n++) {
-                all.append(" [").append(model.nodeQuestion(g, n)).append(' ').append(model.leafToll(g, n)).append(' ')
-                    .append(model.yesChild(g, n)).append(' ').append(model.noChild(g, n)).append(' ')
-                    .append(model.typesAt(g, n)).append(']');
-            }
-            all.append('\n');
         }
-        return all.toString();
+        for (int question = 0; question < model.questionCount(); question++) {
+            ask("questionCost", question);
+            ask("questionNameByte", question, draw(7));
+        }
+    }
+
+    private void lookAt(int gate) throws Exception {
+        for (String name : new String[] {"isOpen", "hoursUntilOpen", "costLimit", "nodeCount", "errors", "work"}) {
+            ask(name, gate);
+        }
+        ask("gateNameByte", gate, draw(7));
+        for (int type = 0; type < model.typeCount(); type++) {
+            ask("countAt", gate, type);
+            ask("leafOf", gate, type);
+        }
+        for (int node = 0; node < model.nodeCount(gate); node++) {
+            for (String name : new String[] {"nodeQuestion", "leafToll", "yesChild", "noChild", "typesAt"}) {
+                ask(name, gate, node);
+            }
+        }
     }
 
     // ---- texts

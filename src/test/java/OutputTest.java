@@ -12,7 +12,6 @@ public final class OutputTest {
         longestOutput();
         outputByte();
         outputIsKept();
-        wrongGates();
         Check.finish("OutputTest");
     }
 
@@ -35,7 +34,7 @@ public final class OutputTest {
         x.setCostLimit(0, 1);
         x.buildTree(0);
         Check.same("built", 0, x.inconsistencies());
-        Check.load(x, "tolls;ask a 1;cart c 1;gate g 1 1 1 0;");
+        Parse.load(x, "tolls;ask a 1;cart c 1;gate g 1 1 1 0;");
         Check.same("loaded", 0, x.inconsistencies());
     }
 
@@ -45,7 +44,7 @@ public final class OutputTest {
         Check.same("south", 2.0, x.meanPathCost(1));
         x.halveCounts(0);
         Check.same("halves", (2.0 * 20 + 2 * 12 + 4 * 5 + 4 * 7 + 2 * 5) / 49.0, x.meanPathCost(0));
-        Check.play(x, "halve north;halve north;halve north;halve north;halve north;");
+        Parse.play(x, "halve north;halve north;halve north;halve north;halve north;");
         Check.same("no carts", 0.0, x.meanPathCost(0));
         TollTrees y = Check.loaded("tolls;ask a 1;cart c 1 a;cart d 2;cart e 2;gate g 1 1 1 1 1 1;gate h 1 1 0 1 1 1;");
         Check.same("all asked", 1.0, y.meanPathCost(0));
@@ -80,7 +79,7 @@ public final class OutputTest {
         Check.due("south's length", 33, () -> x.writeTree(1));
         Check.same("south", "wheels(beast(=9,=5),beast(=3,=2))", Check.written(x, 1));
         Check.same("replaced", NONE, x.outputByte(33));
-        Check.load(x, "tolls;ask a 1;cart c 0;cart d 9 a;gate e 1 1 0 2 1;gate f 1 1 0 1 2;gate g 1 1 1 1 1;");
+        Parse.load(x, "tolls;ask a 1;cart c 0;cart d 9 a;gate e 1 1 0 2 1;gate f 1 1 0 1 2;gate g 1 1 1 1 1;");
         Check.same("toll 0", "=0", Check.written(x, 0));
         Check.same("toll 9", "=9", Check.written(x, 1));
         Check.same("both", "a(=9,=0)", Check.written(x, 2));
@@ -128,8 +127,8 @@ public final class OutputTest {
         x.setCostLimit(1, 0);
         x.buildTree(1);
         x.undo();
-        Check.play(x, "limit south 0;build south;");
-        Check.load(x, "nonsense");
+        Parse.play(x, "limit south 0;build south;");
+        Parse.load(x, "nonsense");
         x.save(0);
         x.restore(0);
         StringBuilder kept = new StringBuilder();
@@ -137,14 +136,5 @@ public final class OutputTest {
             kept.append((char) x.outputByte(i));
         }
         Check.same("kept", "wheels(beast(=9,=5),beast(=3,=2))", kept.toString());
-    }
-
-    private static void wrongGates() {
-        TollTrees x = new TollTrees();
-        x.writeTree(0);
-        for (int i : new int[] {-1, 2, 3, 4, MIN, MAX}) {
-            Check.throwsAndKeeps(x, "meanPathCost " + i, "IndexOutOfBoundsException", () -> x.meanPathCost(i));
-            Check.throwsAndKeeps(x, "writeTree " + i, "IndexOutOfBoundsException", () -> x.writeTree(i));
-        }
     }
 }

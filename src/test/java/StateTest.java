@@ -10,7 +10,6 @@ public final class StateTest {
         types();
         gates();
         openingHours();
-        wrongIndexes();
         nameBytes();
         totals();
         totalsOfChangingTolls();
@@ -27,7 +26,7 @@ public final class StateTest {
         x.advanceClock(100);
         x.advanceClock(7);
         Check.same("clock", 107, x.clock());
-        Check.load(x, "tolls;ask a 1;ask b 1;cart c 1;gate d 1 1 1 1;gate e 1 1 1 1;gate f 1 1 1 1;");
+        Parse.load(x, "tolls;ask a 1;ask b 1;cart c 1;gate d 1 1 1 1;gate e 1 1 1 1;gate f 1 1 1 1;");
         Check.same("questions", 2, x.questionCount());
         Check.same("types", 1, x.typeCount());
         Check.same("gates", 3, x.gateCount());
@@ -66,7 +65,7 @@ public final class StateTest {
     private static void gates() {
         TollTrees x = new TollTrees();
         int[][] counts = {{40, 25, 10, 15, 10}, {5, 50, 5, 30, 10}};
-        Check.load(x, "tolls;ask a 1;cart b 1;cart c 2;gate d 1 2 3 4 5;gate e 6 7 8 9999 0;");
+        Parse.load(x, "tolls;ask a 1;cart b 1;cart c 2;gate d 1 2 3 4 5;gate e 6 7 8 9999 0;");
         Check.same("count", 4, x.countAt(0, 0));
         Check.same("count", 5, x.countAt(0, 1));
         Check.same("count", 9999, x.countAt(1, 0));
@@ -108,28 +107,6 @@ public final class StateTest {
             Check.same(what + " open", open[clock % 24], x.isOpen(0));
             Check.same(what + " wait", wait, x.hoursUntilOpen(0));
             Check.same(what + " open after an hour", open[(clock + 1) % 24] ? 1 : 0, x.advanceClock(1));
-        }
-    }
-
-    private static void wrongIndexes() {
-        TollTrees x = new TollTrees();
-        for (int i : new int[] {-1, 3, 5, 6, 8, MIN, MAX}) {
-            Check.throwsAndKeeps(x, "questionCost " + i, "IndexOutOfBoundsException", () -> x.questionCost(i));
-            Check.throwsAndKeeps(x, "hasTrait 0 " + i, "IndexOutOfBoundsException", () -> x.hasTrait(0, i));
-            Check.throwsAndKeeps(x, "questionNameByte " + i, "IndexOutOfBoundsException", () -> x.questionNameByte(i, 0));
-        }
-        for (int i : new int[] {-1, 5, 6, 8, MIN, MAX}) {
-            Check.throwsAndKeeps(x, "hasTrait " + i + " 0", "IndexOutOfBoundsException", () -> x.hasTrait(i, 0));
-            Check.throwsAndKeeps(x, "toll " + i, "IndexOutOfBoundsException", () -> x.toll(i));
-            Check.throwsAndKeeps(x, "countAt 0 " + i, "IndexOutOfBoundsException", () -> x.countAt(0, i));
-            Check.throwsAndKeeps(x, "typeNameByte " + i, "IndexOutOfBoundsException", () -> x.typeNameByte(i, 0));
-        }
-        for (int i : new int[] {-1, 2, 3, 4, MIN, MAX}) {
-            Check.throwsAndKeeps(x, "countAt " + i + " 0", "IndexOutOfBoundsException", () -> x.countAt(i, 0));
-            Check.throwsAndKeeps(x, "costLimit " + i, "IndexOutOfBoundsException", () -> x.costLimit(i));
-            Check.throwsAndKeeps(x, "isOpen " + i, "IndexOutOfBoundsException", () -> x.isOpen(i));
-            Check.throwsAndKeeps(x, "hoursUntilOpen " + i, "IndexOutOfBoundsException", () -> x.hoursUntilOpen(i));
-            Check.throwsAndKeeps(x, "gateNameByte " + i, "IndexOutOfBoundsException", () -> x.gateNameByte(i, 0));
         }
     }
 
@@ -196,21 +173,21 @@ public final class StateTest {
         TollTrees x = new TollTrees();
         x.passCarts(1, 2, 4);
         x.save(0);
-        Check.load(x, Check.FIRST_SETUP);
+        Parse.load(x, Check.FIRST_SETUP);
         totals(x, "load", 0, 0, 0, 0, 0, 0, 0, 0);
-        Check.load(x, Check.FIRST_SETUP + "pass south barrow 1;");
+        Parse.load(x, Check.FIRST_SETUP + "pass south barrow 1;");
         totals(x, "load with a command", 1, 2, 2, 2, 0, 0, 0, 0);
         x.setToll(0, 9);
         x.setToll(1, 0);
         x.passCarts(1, 0, 1);
         x.passCarts(1, 1, 1);
         totals(x, "every total", 3, 6, 9, 11, 1, 1, 5, 7);
-        Check.load(x, Check.FIRST_SETUP);
+        Parse.load(x, Check.FIRST_SETUP);
         totals(x, "load sets every total to 0", 0, 0, 0, 0, 0, 0, 0, 0);
         x.undo();
         x.play();
         totals(x, "play keeps every total", 3, 6, 9, 11, 1, 1, 5, 7);
-        Check.load(x, Check.FIRST_SETUP);
+        Parse.load(x, Check.FIRST_SETUP);
         totals(x, "load after play sets every total to 0", 0, 0, 0, 0, 0, 0, 0, 0);
         for (int i = 0; i < 6; i++) {
             x.undo();

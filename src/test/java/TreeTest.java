@@ -1,8 +1,5 @@
 /** Promises 40 to 51: the present tree of a gate. */
 public final class TreeTest {
-    private static final int MIN = Integer.MIN_VALUE;
-    private static final int MAX = Integer.MAX_VALUE;
-
     public static void main(String[] args) {
         firstTrees();
         leaves();
@@ -17,7 +14,6 @@ public final class TreeTest {
         costLimits();
         deepTree();
         reasons();
-        wrongIndexes();
         Check.finish("TreeTest");
     }
 
@@ -112,11 +108,11 @@ public final class TreeTest {
         x.setCostLimit(1, 0);
         x.halveCounts(1);
         x.advanceClock(9);
-        Check.play(x, "pass south coach 999;toll wagon 2;limit south 30;halve south;hours 1;");
+        Parse.play(x, "pass south coach 999;toll wagon 2;limit south 30;halve south;hours 1;");
         Check.same("tree", before, Check.written(x, 1));
         Check.same("charged", 9, x.chargedToll(1, 3));
         Check.same("leaf toll", 9, x.leafToll(1, 2));
-        Check.play(x, "build south;");
+        Parse.play(x, "build south;");
         Check.same("another tree", false, before.equals(Check.written(x, 1)));
         Check.same("another tree", "load(beast(=2,=5),wheels(=7,beast(=3,=2)))", Check.written(x, 1));
     }
@@ -221,8 +217,8 @@ public final class TreeTest {
         y.setToll(0, 2);
         Check.same("now it pays its own", 0, y.mischargeReason(0, 0));
         Check.same("now the other is its twin", 1, y.mischargeReason(0, 1));
-        Check.load(y, "tolls;ask a 9;cart c 1;cart d 2;cart e 2;gate g 0 23 9 5 6 7;");
-        Check.load(y, "tolls;ask a 9;cart c 3;cart d 2;gate g 0 23 9 5 6;");
+        Parse.load(y, "tolls;ask a 9;cart c 1;cart d 2;cart e 2;gate g 0 23 9 5 6 7;");
+        Parse.load(y, "tolls;ask a 9;cart c 3;cart d 2;gate g 0 23 9 5 6;");
         y.setToll(0, 4);
         y.buildTree(0);
         y.setToll(1, 3);
@@ -234,40 +230,5 @@ public final class TreeTest {
         y.setToll(2, 2);
         y.setToll(0, 50);
         Check.same("the toll of a type with other answers", 3, y.mischargeReason(0, 0));
-    }
-
-    private static void wrongIndexes() {
-        TollTrees x = new TollTrees();
-        for (int i : new int[] {-1, 2, 3, 4, MIN, MAX}) {
-            Check.throwsAndKeeps(x, "nodeCount " + i, "IndexOutOfBoundsException", () -> x.nodeCount(i));
-            Check.throwsAndKeeps(x, "errors " + i, "IndexOutOfBoundsException", () -> x.errors(i));
-            Check.throwsAndKeeps(x, "work " + i, "IndexOutOfBoundsException", () -> x.work(i));
-            wrongPair(x, i, 0);
-            wrongType(x, i, 0);
-        }
-        for (int i : new int[] {-1, 9, 15, MIN, MAX}) {
-            wrongPair(x, 0, i);
-        }
-        for (int i : new int[] {-1, 7, 8, 14, 15, MIN, MAX}) {
-            wrongPair(x, 1, i);
-        }
-        for (int i : new int[] {-1, 5, 8, 31, MIN, MAX}) {
-            wrongType(x, 1, i);
-        }
-    }
-
-    private static void wrongPair(TollTrees x, int gate, int node) {
-        Check.throwsAndKeeps(x, "nodeQuestion", "IndexOutOfBoundsException", () -> x.nodeQuestion(gate, node));
-        Check.throwsAndKeeps(x, "leafToll", "IndexOutOfBoundsException", () -> x.leafToll(gate, node));
-        Check.throwsAndKeeps(x, "yesChild", "IndexOutOfBoundsException", () -> x.yesChild(gate, node));
-        Check.throwsAndKeeps(x, "noChild", "IndexOutOfBoundsException", () -> x.noChild(gate, node));
-        Check.throwsAndKeeps(x, "typesAt", "IndexOutOfBoundsException", () -> x.typesAt(gate, node));
-    }
-
-    private static void wrongType(TollTrees x, int gate, int type) {
-        Check.throwsAndKeeps(x, "leafOf", "IndexOutOfBoundsException", () -> x.leafOf(gate, type));
-        Check.throwsAndKeeps(x, "chargedToll", "IndexOutOfBoundsException", () -> x.chargedToll(gate, type));
-        Check.throwsAndKeeps(x, "pathCost", "IndexOutOfBoundsException", () -> x.pathCost(gate, type));
-        Check.throwsAndKeeps(x, "mischargeReason", "IndexOutOfBoundsException", () -> x.mischargeReason(gate, type));
     }
 }
