@@ -169,26 +169,24 @@ final class BestEdges {
 
     /** Gates that asked nothing when they were loaded, and may ask now. */
     private static Start grown(String... counts) {
-        StringBuilder text = new StringBuilder(TWO_TYPES);
-        StringBuilder limits = new StringBuilder();
-        for (int gate = 0; gate < counts.length; gate++) {
-            char name = (char) ('e' + gate);
-            text.append("gate ").append(name).append(" 0 23 0 ").append(counts[gate]).append(';');
-            limits.append("limit ").append(name).append(" 1;");
-        }
-        return Start.loaded(text.toString() + limits);
+        return stale(0, "limit", " 1", counts);
     }
 
     /** Gates that asked a question when they were loaded, and then lost half of their carts. */
     private static Start halved(String... counts) {
-        StringBuilder text = new StringBuilder(TWO_TYPES);
-        StringBuilder halves = new StringBuilder();
+        return stale(1, "halve", "", counts);
+    }
+
+    /** A gate with the limit for each of the counts, and then a command for each of the gates. */
+    private static Start stale(int limit, String command, String number, String... counts) {
+        StringBuilder gates = new StringBuilder();
+        StringBuilder commands = new StringBuilder();
         for (int gate = 0; gate < counts.length; gate++) {
             char name = (char) ('e' + gate);
-            text.append("gate ").append(name).append(" 0 23 1 ").append(counts[gate]).append(';');
-            halves.append("halve ").append(name).append(';');
+            gates.append("gate ").append(name).append(" 0 23 ").append(limit).append(' ').append(counts[gate]).append(';');
+            commands.append(command).append(' ').append(name).append(number).append(';');
         }
-        return Start.loaded(text.toString() + halves);
+        return Start.loaded(TWO_TYPES + gates + commands);
     }
 
     private static void stalest(String what, int want, Start start) {
@@ -252,10 +250,12 @@ final class BestEdges {
     private static void quickestGate() {
         Doc.about(58, "Finds the open gate where a cart type has the least path cost.");
         String head = "tolls;ask a 3;ask b 2;cart c 1 a b;cart d 2 a;cart e 3 b;cart f 4;";
-        Start start = Start.loaded(head + "gate g 0 23 9 1 1 1 1;gate h 0 23 4 1 1 1 1;gate i 0 23 2 1 1 1 1;gate j 0 23 0 1 1 1 1;");
+        Start start = Start.loaded(head + "gate g 0 23 9 1 1 1 1;gate h 0 23 4 1 1 1 1;gate i 0 23 2 1 1 1 1;"
+            + "gate j 0 23 0 1 1 1 1;");
         start.answers("the costs", "5 2 2 0", x -> costs(x, 0));
         start.answers("no question", 3, x -> x.quickestGate(0));
-        Start closed = Start.loaded(head + "gate g 0 23 9 1 1 1 1;gate h 0 23 3 9 1 9 1;gate i 0 23 2 1 1 1 1;gate j 5 5 0 1 1 1 1;");
+        Start closed = Start.loaded(head + "gate g 0 23 9 1 1 1 1;gate h 0 23 3 9 1 9 1;gate i 0 23 2 1 1 1 1;"
+            + "gate j 5 5 0 1 1 1 1;");
         closed.answers("the costs", "5 3 2 0", x -> costs(x, 0));
         closed.answers("the least of the three that are open", 2, x -> x.quickestGate(0));
         closed.then(x -> x.advanceClock(5)).answers("the least of four", 3, x -> x.quickestGate(0));

@@ -153,7 +153,8 @@ final class ChangeEdges {
         for (int count : counts) {
             numbers.append(' ').append(count);
         }
-        Start start = Start.loaded("tolls;ask a 1;" + Texts.carts(0, 8) + "gate g 0 0 9" + numbers + ";gate h 1 1 9" + numbers + ";");
+        Start start = Start.loaded("tolls;ask a 1;" + Texts.carts(0, 8) + "gate g 0 0 9" + numbers + ";gate h 1 1 9" + numbers
+            + ";");
         Start halved = start.then(x -> x.halveCounts(0));
         for (int i = 0; i < 8; i++) {
             int type = i;

@@ -35,9 +35,13 @@ public final class FaceTest {
     }
 
     private static void constructors() {
-        Constructor<?>[] all = TollTrees.class.getDeclaredConstructors();
-        Check.same("constructors", 1, all.length);
-        Check.same("constructor", "public TollTrees()", all[0].toString());
+        List<String> seen = new ArrayList<>();
+        for (Constructor<?> constructor : TollTrees.class.getDeclaredConstructors()) {
+            if (!Modifier.isPrivate(constructor.getModifiers())) {
+                seen.add(constructor.toString());
+            }
+        }
+        Check.same("constructors", List.of("public TollTrees()"), seen);
     }
 
     private static void methods() {

@@ -12,6 +12,14 @@ final class OutputEdges {
     private static final String LONGEST_TEXT =
         "aaaaaa(bbbbbb(=17,=10),bbbbbb(=11,cccccc(=12,dddddd(=13,eeeeee(=14,ffffff(=15,=99))))))";
 
+    /** The chain of LONGEST, down the yes children: a type says yes to all questions before the one that it says no to. */
+    private static final Start YES_CHAIN = Start.loaded("tolls;ask aaaaaa 1;ask bbbbbb 1;ask cccccc 1;ask dddddd 1;"
+        + "ask eeeeee 1;ask ffffff 1;cart a 10;cart b 11 aaaaaa;cart c 12 aaaaaa bbbbbb;cart d 13 aaaaaa bbbbbb cccccc;"
+        + "cart e 14 aaaaaa bbbbbb cccccc dddddd;cart f 15 aaaaaa bbbbbb cccccc dddddd eeeeee;"
+        + "cart g 99 aaaaaa bbbbbb cccccc dddddd eeeeee ffffff;gate y 0 23 30 9000 4000 2000 1000 500 200 100;");
+    private static final String YES_CHAIN_TEXT =
+        "aaaaaa(bbbbbb(cccccc(dddddd(eeeeee(ffffff(=99,=15),=14),=13),=12),=11),=10)";
+
     private OutputEdges() {
     }
 
@@ -53,7 +61,8 @@ final class OutputEdges {
 
     private static void meanPathCost() {
         Doc.about(60, "Returns the mean path cost at a gate, weighted by the counts.");
-        Start three = Start.loaded("tolls;ask a 1;ask b 1;cart c 1 a;cart d 2 b;cart e 3;gate g 0 23 9 1 1 1;gate h 0 23 0 1 1 1;");
+        Start three = Start.loaded("tolls;ask a 1;ask b 1;cart c 1 a;cart d 2 b;cart e 3;gate g 0 23 9 1 1 1;"
+            + "gate h 0 23 0 1 1 1;");
         three.answers("5 of 3", 5.0 / 3.0, x -> x.meanPathCost(0));
         three.answers("no question", 0.0, x -> x.meanPathCost(1));
         three.then(x -> x.passCarts(0, 0, 4)).answers("9 of 7", 9.0 / 7.0, x -> x.meanPathCost(0));
@@ -63,7 +72,8 @@ final class OutputEdges {
         LONGEST.answers("the sum is 0", 0.0, x -> x.meanPathCost(1));
         LONGEST.then(x -> x.passCarts(1, 3, 1)).answers("the sum is 1", 0.0, x -> x.meanPathCost(1));
         three.then(x -> x.halveCounts(0)).then(x -> x.passCarts(0, 2, 1)).answers("the sum is 1", 2.0, x -> x.meanPathCost(0));
-        Start most = Start.loaded("tolls;ask qa 9;ask qb 9;ask qc 9;" + Texts.carts(3, 8) + "gate g 0 23 30" + " 9999".repeat(8) + ";");
+        Start most = Start.loaded("tolls;ask qa 9;ask qb 9;ask qc 9;" + Texts.carts(3, 8) + "gate g 0 23 30"
+            + " 9999".repeat(8) + ";");
         most.answers("the greatest work", 27.0, x -> x.meanPathCost(0));
         // What a larger station before had at its gates does not count.
         Start.busy("tolls;ask a 1;cart c 1;cart d 2 a;gate ga 0 23 9 4 3;").answers("a smaller station", 1.0,
@@ -129,6 +139,8 @@ final class OutputEdges {
             "a(b(=1,=2),=3)", x -> Seen.tree(x, 0));
         Start.loaded("tolls;ask a 1;ask b 1;cart c 1 b;cart d 2;cart e 3 a;gate g 0 23 9 1 1 9;").answers("a no child",
             "a(=3,b(=1,=2))", x -> Seen.tree(x, 0));
+        YES_CHAIN.answers("six questions down the yes children", YES_CHAIN_TEXT, x -> Seen.tree(x, 0));
+        YES_CHAIN.answers("its length", YES_CHAIN_TEXT.length(), x -> x.writeTree(0));
         Doc.about(62, "There are no spaces.");
         LONGEST.answers("spaces", -1, x -> Seen.tree(x, 0).indexOf(' '));
     }
@@ -142,11 +154,16 @@ final class OutputEdges {
         Start busy = Start.busy(Texts.setup(3, 8, 2));
         Check.same("no other effect", Seen.state(busy), Seen.state(busy.then(x -> x.writeTree(1))));
         busy.then(x -> x.writeTree(1)).answers("is no change", 8, x -> x.undoableChanges());
-        Start.Run[] others = {x -> x.buildTree(0), x -> x.undo(), x -> x.restore(1), x -> Parse.load(x, Parse.HEAD),
-            x -> Parse.play(x, "hours 1;"), x -> Parse.load(x, "?"), x -> x.setToll(0, 99), x -> x.save(0)};
+        Start written = LONGEST.then(x -> x.save(1)).then(x -> x.writeTree(0));
+        Start.Run[] others = {x -> x.buildTree(1), x -> x.undo(), x -> x.restore(1), x -> Parse.load(x, Parse.HEAD),
+            x -> Parse.play(x, "limit y 0;build y;"), x -> Parse.load(x, "?"), x -> Parse.play(x, "?"), x -> x.setToll(0, 99),
+            x -> x.save(0), x -> x.passCarts(0, 0, 9), x -> x.halveCounts(0), x -> x.setCostLimit(0, 9),
+            x -> x.advanceClock(1), x -> x.bestErrors(0, 3), x -> x.append(1, 2, 3, 4, 5)};
         for (int i = 0; i < others.length; i++) {
-            busy.then(others[i]).answers("kept by call " + i, Seen.output(busy.made()), x -> Seen.output(x));
+            written.then(others[i]).answers("kept by call " + i, LONGEST_TEXT, x -> Seen.output(x));
         }
+        written.then(x -> x.setCostLimit(0, 0)).then(x -> x.buildTree(0)).answers("kept when the tree is another", LONGEST_TEXT,
+            x -> Seen.output(x));
     }
 
     private static void outputByte() {

@@ -361,6 +361,11 @@ final class TermEdges {
         });
         built.answers("built by a call", "a(=4,=0)", x -> Seen.tree(x, 0));
         built.answers("the other gate's stays", "a(=4,=3)", x -> Seen.tree(x, 1));
+        Start.Run anew = x -> x.buildTree(1);
+        Start equal = start.then(x -> x.setToll(0, 4)).then(anew);
+        equal.answers("one toll", "=4", x -> Seen.tree(x, 1));
+        equal.then(x -> x.setToll(0, 5)).then(anew).answers("two tolls again", "a(=4,=5)", x -> Seen.tree(x, 1));
+        equal.then(x -> x.undo()).then(x -> x.undo()).then(anew).answers("undone and built", "a(=4,=3)", x -> Seen.tree(x, 1));
     }
 
     private static void laterChanges() {
@@ -481,6 +486,12 @@ final class TermEdges {
         passed.answers("added up", "111 222 443 53 100 10 400 10", x -> Seen.totals(x));
         passed.then(x -> Parse.load(x, setup)).answers("loaded again", zeros, x -> Seen.totals(x));
         passed.then(x -> Parse.load(x, setup + "pass g d 1;")).answers("loaded with a command", "1 2 4 4 0 0 0 0",
+            x -> Seen.totals(x));
+        String pass = "pass g c 1;toll c 2;pass g c 1;toll d 5;pass g d 1;";
+        passed.then(x -> Parse.play(x, pass)).then(x -> Parse.load(x, setup)).answers("loaded behind a script", zeros,
+            x -> Seen.totals(x));
+        Start.loaded(setup + pass).then(x -> Parse.load(x, setup)).answers("loaded behind commands", zeros, x -> Seen.totals(x));
+        passed.then(x -> Parse.play(x, "")).then(x -> Parse.load(x, setup)).answers("loaded behind no command", zeros,
             x -> Seen.totals(x));
         passed.then(x -> Parse.load(x, "tolls;")).answers("loaded with an error", "111 222 443 53 100 10 400 10",
             x -> Seen.totals(x));

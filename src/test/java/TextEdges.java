@@ -17,6 +17,7 @@ final class TextEdges {
         traits();
         counts();
         everyByte();
+        keywords();
         words();
         numbers();
         spaces();
@@ -205,6 +206,24 @@ final class TextEdges {
             }
             Parse.wrong(start, 1, sign == ' ' ? "  hours 1 ^" : "^" + sign, false);
             Parse.wrong(start, 1, sign == ' ' ? "tolls ^" : "^" + sign + "tolls;", true);
+        }
+    }
+
+    /** Each keyword with another letter in each place, without its last one, and with one more. */
+    private static void keywords() {
+        Doc.section(4, "Code 1, syntax error: the token is not allowed there");
+        String[] before = {"", "tolls;", "tolls;ask a 1;", "tolls;ask a 1;cart c 2;", ONE, ONE, ONE, ONE, ONE, ONE};
+        String[] words = {"tolls", "ask", "cart", "gate", "pass", "build", "halve", "toll", "limit", "hours"};
+        for (int i = 0; i < words.length; i++) {
+            String word = words[i];
+            for (int at = 0; at < word.length(); at++) {
+                String other = word.substring(0, at) + "x" + word.substring(at + 1);
+                Parse.wrong(Start.NEW, 1, before[i] + "^" + other + " g 1;", true);
+            }
+            Parse.wrong(Start.NEW, 1, before[i] + "^" + word.substring(1) + " g 1;", true);
+            Parse.wrong(Start.NEW, 1, before[i] + "^" + word.substring(0, word.length() - 1) + "q g 1;", true);
+            Parse.wrong(Start.NEW, 1, before[i] + "^" + word + "x g 1;", true);
+            Parse.wrong(Start.NEW, 1, before[i] + "^x" + word + " g 1;", true);
         }
     }
 
