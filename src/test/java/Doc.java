@@ -7,11 +7,18 @@ import java.util.LinkedHashMap;
 import java.util.List;
 import java.util.Map;
 import java.util.Set;
+import java.util.regex.Matcher;
+import java.util.regex.Pattern;
 
-/** The sentences of the document, heading by heading, and which of them the edge tests are about. */
+/** The document: its sentences, heading by heading, which of them the edge tests are about, and its public face. */
 final class Doc {
     private static final Path PLACE = Path.of("../shared/DOC.md");
+    private static final Pattern GROUP = Pattern.compile("Ahead of the calls (.*) the interface says: ---- (.*)\\.");
+    private static final Pattern CALL = Pattern.compile("`([^`]*\\)[^`]*)`: .*");
     private static final Map<String, List<String>> SENTENCES = new LinkedHashMap<>();
+    private static final Map<String, List<String>> GROUPS = new LinkedHashMap<>();
+    private static final List<String> FACE = new ArrayList<>();
+    private static final List<String> PROMISED = new ArrayList<>();
     private static final Set<String> QUOTED = new HashSet<>();
 
     private Doc() {
@@ -78,15 +85,37 @@ final class Doc {
         add(heading, paragraph.toString());
     }
 
+    /** The lines of the public face, without those of the class itself; empty if the document is not there. */
+    static List<String> face() {
+        return FACE;
+    }
+
+    /** The constructor and the calls as the promises tell them, from the first to the last. */
+    static List<String> promised() {
+        return PROMISED;
+    }
+
+    /** The calls, group by group; empty if the document is not there. */
+    static Map<String, List<String>> groups() {
+        return GROUPS;
+    }
+
     private static void add(String heading, String paragraph) {
-        boolean meant = heading.matches("What it is|Terms|Section \\d|Promise \\d+");
-        if (!meant || paragraph.isBlank() || paragraph.startsWith(" Ahead of the calls")) {
+        String text = paragraph.trim().replaceFirst("^- ", "");
+        Matcher group = GROUP.matcher(text);
+        if (heading.equals("The public face") && text.endsWith(";")) {
+            FACE.add(text);
+        }
+        if (group.matches()) {
+            GROUPS.put(group.group(2), List.of(group.group(1).replace("`", "").split(", ")));
+        }
+        if (!heading.matches("What it is|Terms|Section \\d|Promise \\d+") || text.isEmpty() || group.matches()) {
             return;
         }
-        String text = paragraph.trim().replaceFirst("^- ", "");
-        if (heading.startsWith("Promise")) {
-            // The call's face stands before its first sentence; FaceTest compares that.
-            text = text.replaceFirst("^`[^`]*\\)[^`]*`: ", "");
+        Matcher call = CALL.matcher(text);
+        if (heading.startsWith("Promise") && call.matches()) {
+            PROMISED.add(call.group(1));
+            text = text.substring(call.end(1) + 3);
         }
         SENTENCES.computeIfAbsent(heading, key -> new ArrayList<>())
             .addAll(List.of(text.split("(?<=\\.) (?=[A-Z]|load\\(\\))")));

@@ -1,14 +1,19 @@
+import java.io.IOException;
 import java.lang.reflect.Constructor;
 import java.lang.reflect.Field;
 import java.lang.reflect.Method;
 import java.lang.reflect.Modifier;
+import java.nio.file.Files;
+import java.nio.file.Path;
 import java.util.ArrayList;
 import java.util.Arrays;
 import java.util.Collections;
+import java.util.LinkedHashMap;
 import java.util.List;
+import java.util.Map;
 import java.util.TreeSet;
 
-/** The public face: every constant, constructor and method of the document, and no other. */
+/** The public face: every constant, constructor and method of the document, in its groups, and no other. */
 public final class FaceTest {
     private static final String I = "IndexOutOfBoundsException";
     private static final String A = "IllegalArgumentException";
@@ -21,6 +26,11 @@ public final class FaceTest {
         fields();
         constructors();
         methods();
+        Doc.read();
+        if (!Doc.face().isEmpty()) {
+            document();
+            groups();
+        }
         Check.finish("FaceTest");
     }
 
@@ -60,6 +70,39 @@ public final class FaceTest {
             String name = line.substring(line.indexOf(' ') + 1, line.indexOf('('));
             Check.same("private methods named " + name, 0, Collections.frequency(hidden, name));
         }
+    }
+
+    /** The list below is the face that the document tells, once as a whole and once more promise by promise. */
+    private static void document() {
+        List<String> face = Doc.face();
+        Check.same("the document's constant", "public static final int NONE = -1;", face.get(0));
+        Check.same("the document's constructor", "public TollTrees();", face.get(1));
+        TreeSet<String> calls = new TreeSet<>();
+        for (String line : face.subList(2, face.size())) {
+            String types = line.replaceAll("\\bint \\w+(?=[,)])", "i").replaceAll("(?<=i), (?=i)", "");
+            calls.add(types.replaceFirst("public ", "").replaceFirst(" throws", "").replaceAll("[,;]", ""));
+        }
+        Check.same("the document's calls", new TreeSet<>(Arrays.asList(face())), calls);
+        List<String> promised = new ArrayList<>();
+        for (String call : Doc.promised()) {
+            promised.add("public " + call + ";");
+        }
+        Check.same("the document's promises", face.subList(1, face.size()), promised);
+    }
+
+    /** The calls stand in the document's groups, in its order, behind the names of the groups. */
+    private static void groups() throws IOException {
+        Map<String, List<String>> groups = new LinkedHashMap<>();
+        String group = "";
+        for (String line : Files.readAllLines(Path.of("src/main/java/TollTrees.java"))) {
+            if (line.startsWith("    // ---- ")) {
+                group = line.substring("    // ---- ".length());
+            } else if (line.matches(" {4}public \\w+ \\w+\\(.*")) {
+                String name = line.substring(0, line.indexOf('(')).replaceFirst(".* ", "");
+                groups.computeIfAbsent(group, key -> new ArrayList<>()).add(name);
+            }
+        }
+        Check.same("groups", Doc.groups().toString(), groups.toString());
     }
 
     private static String shown(Method method) {

@@ -47,7 +47,8 @@ public final class InputTest {
             + "north false 6 9 40 25 10 15 10 [0 -1 1 6 31] [2 -1 2 5 14] [1 -1 3 4 12] [-1 9 -1 -1 8]"
             + " [-1 7 -1 -1 4] [-1 5 -1 -1 2] [2 -1 7 8 17] [-1 3 -1 -1 16] [-1 2 -1 -1 1]\n"
             + "south true 0 2 5 50 5 30 10 [0 -1 1 4 31] [2 -1 2 3 14] [-1 9 -1 -1 12] [-1 5 -1 -1 2]"
-            + " [2 -1 5 6 17] [-1 3 -1 -1 16] [-1 2 -1 -1 1]\n";
+            + " [2 -1 5 6 17] [-1 3 -1 -1 16] [-1 2 -1 -1 1]\n"
+            + "......" + "o".repeat(15) + "...\n" + "o".repeat(24) + "\n";
         Check.same("new: state", want, Seen.state(Start.NEW));
         Check.same("new: as loaded", Seen.state(Start.loaded(Check.FIRST_SETUP)), Seen.state(Start.NEW));
     }
@@ -122,7 +123,8 @@ public final class InputTest {
 
     private static void loadReplacesAll() {
         String small = "tolls;ask q 9;cart z 99;gate w 23 22 30 9999;";
-        String want = "clock 0 totals 0 0 0 0 0 0 0 0\nq 9\nz 99 no\nw true 0 30 9999 [-1 99 -1 -1 1]\n";
+        String want = "clock 0 totals 0 0 0 0 0 0 0 0\nq 9\nz 99 no\nw true 0 30 9999 [-1 99 -1 -1 1]\n"
+            + "o".repeat(24) + "\n";
         Check.same("smaller", want, Seen.state(Start.loaded(small)));
         Start largest = Start.loaded("tolls;ask a 1;ask b 2;ask c 3;ask d 4;ask e 5;ask f 6;cart a 1 a;cart b 2 b;cart c 3 c;"
             + "cart d 4 d;cart e 5 e;cart f 6 f;cart g 7 a b;cart h 8 f e d c b a;gate a 0 1 30 1 2 3 4 5 6 7 8;"
@@ -145,8 +147,8 @@ public final class InputTest {
         Check.illegal("play: empty buffer", () -> x.truncateInput(1));
         Start played = LOADED.then(y -> Parse.play(y, script));
         Check.same("play: state", "clock 7 totals 11 11 39 39 0 0 0 0\na 1\nb 2\nc 3 no no\nd 2 yes no\n"
-            + "g true 0 0 6 2 [-1 3 -1 -1 3]\nh true 0 9 1 5 [0 -1 1 2 3] [-1 4 -1 -1 2] [-1 3 -1 -1 1]\n",
-            Seen.state(played));
+            + "g true 0 0 6 2 [-1 3 -1 -1 3]\nh true 0 9 1 5 [0 -1 1 2 3] [-1 4 -1 -1 2] [-1 3 -1 -1 1]\n"
+            + "oo" + ".".repeat(21) + "o\n" + "o".repeat(24) + "\n", Seen.state(played));
         Check.same("play undone", Seen.state(LOADED), Seen.state(played.then(y -> y.undo())));
         Start called = LOADED.then(y -> {
             y.advanceClock(7);

@@ -29,7 +29,7 @@ final class Seen {
         for (int gate = 0; gate < gates; gate++) {
             gate(all, start.made(), gate);
         }
-        return all.toString();
+        return all + hours(start.made());
     }
 
     static String totals(TollTrees x) {
@@ -77,6 +77,25 @@ final class Seen {
             i++;
         }
         return name.toString();
+    }
+
+    /** For each gate the hours from now on, a day of them as far as the clock goes: o if it is open, else a dot. */
+    private static String hours(TollTrees x) {
+        int gates = x.gateCount();
+        int ahead = Math.min(23, 9999 - x.clock());
+        StringBuilder[] days = new StringBuilder[gates];
+        for (int gate = 0; gate < gates; gate++) {
+            days[gate] = new StringBuilder();
+        }
+        for (int hour = 0; hour <= ahead; hour++) {
+            if (hour > 0) {
+                x.advanceClock(1);
+            }
+            for (int gate = 0; gate < gates; gate++) {
+                days[gate].append(x.isOpen(gate) ? 'o' : '.');
+            }
+        }
+        return String.join("\n", days) + "\n";
     }
 
     private static String undone(Start start) {

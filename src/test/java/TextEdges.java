@@ -1,3 +1,5 @@
+import java.util.List;
+
 /** The edges that section 4 of the terms names: the grammar, the tokens and the error codes. */
 final class TextEdges {
     private static final int NONE = TollTrees.NONE;
@@ -18,6 +20,7 @@ final class TextEdges {
         counts();
         everyByte();
         keywords();
+        keywordsInTheirPlaces();
         words();
         numbers();
         spaces();
@@ -209,13 +212,15 @@ final class TextEdges {
         }
     }
 
+    private static final String[] KEYWORDS =
+        {"tolls", "ask", "cart", "gate", "pass", "build", "halve", "toll", "limit", "hours"};
+
     /** Each keyword with another letter in each place, without its last one, and with one more. */
     private static void keywords() {
         Doc.section(4, "Code 1, syntax error: the token is not allowed there");
         String[] before = {"", "tolls;", "tolls;ask a 1;", "tolls;ask a 1;cart c 2;", ONE, ONE, ONE, ONE, ONE, ONE};
-        String[] words = {"tolls", "ask", "cart", "gate", "pass", "build", "halve", "toll", "limit", "hours"};
-        for (int i = 0; i < words.length; i++) {
-            String word = words[i];
+        for (int i = 0; i < KEYWORDS.length; i++) {
+            String word = KEYWORDS[i];
             for (int at = 0; at < word.length(); at++) {
                 String other = word.substring(0, at) + "x" + word.substring(at + 1);
                 Parse.wrong(Start.NEW, 1, before[i] + "^" + other + " g 1;", true);
@@ -224,6 +229,38 @@ final class TextEdges {
             Parse.wrong(Start.NEW, 1, before[i] + "^" + word.substring(0, word.length() - 1) + "q g 1;", true);
             Parse.wrong(Start.NEW, 1, before[i] + "^" + word + "x g 1;", true);
             Parse.wrong(Start.NEW, 1, before[i] + "^x" + word + " g 1;", true);
+        }
+    }
+
+    /** Each keyword behind any number of questions, cart types and gates, and behind a command. */
+    private static void keywordsInTheirPlaces() {
+        Doc.section(4, "Code 1, syntax error: the token is not allowed there");
+        String commands = "pass build halve toll limit hours";
+        keywordsBehind("", "tolls", "");
+        for (int questions = 0; questions <= 6; questions++) {
+            String may = questions == 0 ? "ask" : questions < 6 ? "ask cart" : "cart";
+            keywordsBehind("tolls;" + Texts.asks(questions), may, questions < 6 ? "" : "ask");
+        }
+        String head = "tolls;" + Texts.asks(6);
+        for (int types = 1; types <= 8; types++) {
+            keywordsBehind(head + Texts.carts(6, types), types < 8 ? "cart gate" : "gate", types < 8 ? "" : "cart");
+        }
+        head += Texts.carts(6, 8);
+        for (int gates = 1; gates <= 4; gates++) {
+            String may = gates < 4 ? "gate " + commands : commands;
+            keywordsBehind(head + Texts.gates(gates, 8), may, gates < 4 ? "" : "gate");
+            keywordsBehind(head + Texts.gates(gates, 8) + "build ga;", commands, "");
+        }
+    }
+
+    /** One that may stand there is the last token of a text that ends too early; all but one of the others are not allowed. */
+    private static void keywordsBehind(String before, String may, String tooMany) {
+        for (String word : KEYWORDS) {
+            if (List.of(may.split(" ")).contains(word)) {
+                Parse.setupWrong(1, before + word + "^");
+            } else {
+                Parse.setupWrong(word.equals(tooMany) ? 5 : 1, before + "^" + word);
+            }
         }
     }
 

@@ -12,6 +12,37 @@ final class Texts {
         return "tolls;" + asks(questions) + carts(questions, types) + gates(gates, types);
     }
 
+    /**
+     * A setup as large as can be, of the kind 0 or 1: all that is held of a question, a cart type or a gate of one kind
+     * is different in the other kind. The first gates of kind 0 and the last ones of kind 1 have large trees.
+     */
+    static String full(int kind) {
+        int[] limits = kind == 0 ? new int[] {30, 12, 3, 0} : new int[] {0, 4, 11, 29};
+        StringBuilder text = new StringBuilder("tolls;");
+        for (int question = 0; question < 6; question++) {
+            text.append("ask q").append(letter(question)).append(letter(kind)).append(' ')
+                .append((2 * question + kind) % 9 + 1).append(';');
+        }
+        for (int type = 0; type < 8; type++) {
+            text.append("cart c").append(letter(type)).append(letter(kind)).append(' ').append(11 * type + 5 * kind);
+            for (int question = 0; question < 6; question++) {
+                if ((type >> question % 3 & 1) != kind) {
+                    text.append(" q").append(letter(question)).append(letter(kind));
+                }
+            }
+            text.append(';');
+        }
+        for (int gate = 0; gate < 4; gate++) {
+            text.append("gate g").append(letter(gate)).append(letter(kind)).append(' ').append(3 * gate + 12 * kind)
+                .append(' ').append((4 * gate + 8 + 5 * kind) % 24).append(' ').append(limits[gate]);
+            for (int type = 0; type < 8; type++) {
+                text.append(' ').append(56 * gate + 7 * type + 3 * kind + 1);
+            }
+            text.append(';');
+        }
+        return text.toString();
+    }
+
     static String asks(int questions) {
         StringBuilder text = new StringBuilder();
         for (int question = 0; question < questions; question++) {

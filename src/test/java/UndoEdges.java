@@ -31,6 +31,7 @@ final class UndoEdges {
         undoAndChangeInTurns();
         noRedo();
         whatComesBack();
+        wholeStationsComeBack();
         whatStays();
         savedStatesBehindLoad();
         refusedCalls();
@@ -197,6 +198,39 @@ final class UndoEdges {
             Check.same("another state by " + i, false, want.equals(Seen.state(changed)));
             Check.same("undone " + i, want, Seen.state(undone(changed, 1)));
             Check.same("restored " + i, want, Seen.state(changed.then(x -> x.restore(0))));
+        }
+    }
+
+    /** Stations of the two kinds of Texts.full(), with carts that were charged too much and too little, and small ones. */
+    private static final Start.Run[] STATIONS = {x -> fullStation(x, 0), x -> fullStation(x, 1),
+        x -> Parse.load(x, Texts.setup(1, 2, 4)), x -> Parse.load(x, EMPTY_GATE)};
+
+    private static void fullStation(TollTrees x, int kind) {
+        Parse.load(x, Texts.full(kind));
+        x.advanceClock(9 + 12 * kind);
+        x.passCarts(3, 0, 5 + kind);
+        x.setToll(1, 99 - kind);
+        x.passCarts(3, 1, 6 + kind);
+        x.setToll(7, kind);
+        x.passCarts(3, 7, 8 + kind);
+    }
+
+    private static void wholeStationsComeBack() {
+        Doc.section(5, "Undo and restore bring back the questions, cart types, gates, trees, the clock and the totals.");
+        for (Start.Run first : STATIONS) {
+            for (Start.Run second : STATIONS) {
+                String one = Seen.state(new Start(first));
+                String other = Seen.state(new Start(second));
+                Start both = new Start(first).then(x -> x.save(0)).then(second).then(x -> x.save(1));
+                Check.same("the state before", other, Seen.state(both));
+                Start back = both.then(x -> x.restore(0));
+                Check.same("restored", one, Seen.state(back));
+                Check.same("restored, undone", other, Seen.state(undone(back, 1)));
+                Start forth = back.then(x -> x.restore(1));
+                Check.same("the other restored", other, Seen.state(forth));
+                Check.same("the other restored, undone", one, Seen.state(undone(forth, 1)));
+                Check.same("both undone", other, Seen.state(undone(forth, 2)));
+            }
         }
     }
 
