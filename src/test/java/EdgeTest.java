@@ -7,6 +7,7 @@ public final class EdgeTest {
         Doc.read();
         TermEdges.run();
         TextEdges.run();
+        ValueEdges.run();
         InputEdges.run();
         IndexEdges.run();
         ChangeEdges.run();

@@ -86,6 +86,8 @@ final class OutputEdges {
         Start wrong = start.then(x -> x.setToll(0, 49)).then(x -> x.passCarts(0, 0, 3));
         Doc.about(61, "converted to float; 1.0f if no cart passed.");
         start.answers("no cart", 1.0f, x -> x.correctShare());
+        start.then(x -> x.advanceClock(9)).answers("no cart for nine hours", 1.0f, x -> x.correctShare());
+        start.then(x -> x.setToll(0, 49)).answers("no cart, which would be wrong", 1.0f, x -> x.correctShare());
         start.then(x -> x.passCarts(0, 0, 1)).answers("one right cart", 1.0f, x -> x.correctShare());
         Doc.about(61, "Returns cartsPassed() - cartsOvercharged() - cartsUndercharged(), converted to float, divided by");
         wrong.answers("no right cart", 0.0f, x -> x.correctShare());
