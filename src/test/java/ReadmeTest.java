@@ -13,7 +13,6 @@ import java.util.Map;
 import java.util.TreeSet;
 import java.util.regex.Matcher;
 import java.util.regex.Pattern;
-import javax.tools.ToolProvider;
 
 /** README.md: its examples are run, and its tables are compared with the class, the document and the tests. */
 public final class ReadmeTest {
@@ -76,8 +75,8 @@ public final class ReadmeTest {
         Path source = Files.writeString(place.resolve("Examples.java"), program);
         List<String> seen = new ArrayList<>();
         try {
-            int failed = ToolProvider.getSystemJavaCompiler().run(null, null, null, "-cp",
-                System.getProperty("java.class.path"), "-d", place.toString(), source.toString());
+            int failed = new ProcessBuilder("javac", "-cp", System.getProperty("java.class.path"), "-d", place.toString(),
+                source.toString()).inheritIO().start().waitFor();
             Check.same("the examples compile", 0, failed);
             URL[] places = {place.toUri().toURL()};
             try (URLClassLoader loader = new URLClassLoader(places, ReadmeTest.class.getClassLoader())) {
